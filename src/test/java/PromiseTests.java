@@ -36,15 +36,18 @@ public final class PromiseTests {
         fundToTheLastNote();
         promise = 7;
         giveUp();
+        giveUpAfterPayment();
         promise = 8;
         pay();
         payErrors();
         payShares();
+        payAfterUndo();
         promise = 9;
         cure();
         promise = 10;
         sell();
         sellWithPool();
+        sellByLacks();
         sellErrors();
         promise = 11;
         switchServicer();
@@ -67,6 +70,7 @@ public final class PromiseTests {
         keep();
         promise = 19;
         restore();
+        restoreOverOthers();
         promise = 20;
         investor();
         promise = 21;
@@ -81,6 +85,7 @@ public final class PromiseTests {
         servicer();
         promise = 26;
         count();
+        fullHouse();
         System.out.println(wrong == 0 ? "all answers are as due" : wrong + " answers are not as due");
         if (wrong != 0) {
             System.exit(1);
@@ -373,6 +378,20 @@ public final class PromiseTests {
         due("giveUp(0) when it runs", running.giveUp(0), NOT_POSSIBLE);
     }
 
+    private static void giveUpAfterPayment() {
+        PeerNotes x = seniorAndJunior();
+        x.openLoan(500, 0, 1);
+        x.fund(0, 1, false, 100);
+        x.pass(1);
+        x.pay(0, 90);
+        int interest = x.note(0, 5);
+        int cash = x.investor(0, 0);
+        due("giveUp(1)", x.giveUp(1), 100);
+        due("note(0, 5)", x.note(0, 5), interest);
+        due("investor(0, 4)", x.investor(0, 4), interest);
+        due("investor(0, 0)", x.investor(0, 0), cash + 100);
+    }
+
     private static void pay() {
         PeerNotes x = seniorAndJunior();
         x.pass(1);
@@ -520,6 +539,20 @@ public final class PromiseTests {
         due("loan(0, 4)", y.loan(0, 4), 240 * 4999 - 199000);
     }
 
+    private static void payAfterUndo() {
+        PeerNotes x = seniorAndJunior();
+        x.keep();
+        x.openLoan(900, 50, 1);
+        x.fund(0, 1, false, 900);
+        due("pay(1, 450)", x.pay(1, 450), 452);
+        due("restore()", x.restore(), 2);
+        // Only the notes that are there have a weight: 600 and 400.
+        x.pass(1);
+        due("pay(0, 20)", x.pay(0, 20), 1000);
+        due("note(0, 5)", x.note(0, 5), 12);
+        due("note(1, 5)", x.note(1, 5), 7);
+    }
+
     private static void cure() {
         PeerNotes x = seniorAndJunior();
         x.openLoan(100, 0, 1);
@@ -641,6 +674,26 @@ public final class PromiseTests {
         due("count(9)", x.count(9), 10);
         due("investor(1, 5)", x.investor(1, 5), 60);
         due("count(13)", x.count(13), 160);
+    }
+
+    private static void sellByLacks() {
+        PeerNotes x = new PeerNotes();
+        x.addInvestor(1000);
+        x.setPoolShare(50);
+        x.openLoan(100, 50, 1);
+        x.fund(0, 0, false, 1);
+        x.fund(0, 0, false, 1);
+        x.fund(0, 0, false, 1);
+        x.fund(0, 0, true, 97);
+        x.pass(4);
+        due("pay(0, 2)", x.pay(0, 2), 100);
+        due("count(9)", x.count(9), 1);
+        // The coin of the price is for note 0, so that of the pool is for note 1.
+        due("sell(0, 1)", x.sell(0, 1), 98);
+        due("note(0, 6)", x.note(0, 6), 0);
+        due("note(1, 6)", x.note(1, 6), 0);
+        due("note(2, 6)", x.note(2, 6), 1);
+        due("note(3, 6)", x.note(3, 6), 97);
     }
 
     private static void sellErrors() {
@@ -828,6 +881,13 @@ public final class PromiseTests {
         due("loan(0, 0)", x.loan(0, 0), 2);
         due("pass(2)", x.pass(2), 0);
         due("loan(0, 4)", x.loan(0, 4), 0);
+
+        // One coin that is due is enough for arrears.
+        PeerNotes z = oneRunning(100, 0, 10);
+        z.pass(1);
+        z.pay(0, 9);
+        due("loan(0, 5)", z.loan(0, 5), 1);
+        due("pass(1)", z.pass(1), 1);
 
         // A payment ahead: in the month nothing was due, so there are no arrears.
         PeerNotes y = oneRunning(1000, 10, 10);
@@ -1045,6 +1105,91 @@ public final class PromiseTests {
         due("restore()", x.restore(), 0);
         due("restore() again is an act", x.restore(), 0);
         due("count(16)", x.count(16), 4);
+    }
+
+    private static void restoreOverOthers() {
+        PeerNotes x = new PeerNotes();
+        x.addInvestor(5000);
+        x.addInvestor(6000);
+        x.openLoan(1000, 30, 5);
+        x.openLoan(2000, 40, 6);
+        x.fund(0, 0, true, 1000);
+        x.fund(1, 1, false, 700);
+        x.switchServicer(0, 2);
+        x.pass(1);
+        x.pay(0, 100);
+        x.keep();
+        x.sellNote(0, 1, 3);
+        x.restore();
+        long told = told(x);
+
+        PeerNotes y = new PeerNotes();
+        y.keep();
+        y.addInvestor(5000);
+        y.addInvestor(6000);
+        y.openLoan(1000, 30, 5);
+        y.openLoan(2000, 40, 6);
+        y.fund(0, 0, true, 1000);
+        y.fund(1, 1, false, 700);
+        y.switchServicer(0, 2);
+        y.pass(1);
+        y.pay(0, 100);
+        // Every row is written over by other ones, after the way back to nothing, before the snapshot comes back.
+        int[] states = new int[4];
+        for (int i = 0; i < states.length; i++) {
+            states[i] = y.undo();
+        }
+        due("count(8)", y.count(8), 1);
+        y.fund(1, 1, false, 700);
+        y.switchServicer(0, 2);
+        y.pass(1);
+        y.pay(0, 100);
+        y.restore();
+        due("count(2)", y.count(2), 0);
+        due("undo()", y.undo(), 3);
+        due("told", told(y), told);
+        y.keep();
+        for (int i = 0; i < states.length; i++) {
+            y.undo();
+        }
+        y.openLoan(300, 7, 9);
+        y.fund(0, 2, false, 300);
+        y.switchServicer(2, 1);
+        y.pass(2);
+        y.giveUp(1);
+        due("restore()", y.restore(), 2);
+        due("told", told(y), told);
+        y.fund(1, 1, true, 1300);
+        due("loan(1, 3): its months are back", y.loan(1, 3), 334);
+        y.pass(1);
+        due("loan(1, 4): its rate is back", y.loan(1, 4), 80);
+
+        // From nothing over rows that are used otherwise.
+        PeerNotes z = new PeerNotes();
+        z.addInvestor(500);
+        z.addInvestor(400);
+        z.openLoan(100, 10, 2);
+        z.keep();
+        z.undo();
+        z.undo();
+        z.undo();
+        z.openLoan(200, 20, 4);
+        due("restore()", z.restore(), 0);
+        due("loan(0, 1)", z.loan(0, 1), 100);
+        due("fund(1, 0, true, 100)", z.fund(1, 0, true, 100), 0);
+        due("loan(0, 3)", z.loan(0, 3), 50);
+        z.pass(1);
+        due("loan(0, 4)", z.loan(0, 4), 1);
+        z.keep();
+        z.undo();
+        z.undo();
+        z.openLoan(100, 0, 1);
+        due("fund(0, 1, false, 30)", z.fund(0, 1, false, 30), 70);
+        due("restore()", z.restore(), 1);
+        int[] want = {1, 0, 1, 100, 100, 0, 0};
+        for (int what = 0; what < want.length; what++) {
+            due("note(0, " + what + ")", z.note(0, what), want[what]);
+        }
     }
 
     private static void investor() {
@@ -1312,5 +1457,47 @@ public final class PromiseTests {
         x.undo();
         due("count(15)", x.count(15), 1);
         due("count(16)", x.count(16), 3);
+    }
+
+    /** 8 investors, 10 loans, 60 notes: every row is in use. */
+    private static void fullHouse() {
+        PeerNotes x = new PeerNotes();
+        for (int i = 0; i < 8; i++) {
+            x.addInvestor(1000);
+        }
+        for (int i = 0; i < 10; i++) {
+            x.openLoan(600, 10, 1);
+        }
+        for (int i = 0; i < 60; i++) {
+            due("fund, number " + i, x.fund(i % 8, i / 6, i % 2 == 1, 100), 500 - i % 6 * 100);
+        }
+        x.pass(4);
+        int[] want = {4, 8, 10, 0, 10, 0, 0, 0, 60, 0, 5, 6000, 240, 0, 10, 0, 4, 0};
+        for (int what = 0; what < want.length; what++) {
+            due("count(" + what + ")", x.count(what), want[what]);
+        }
+        due("servicer(0, 2)", x.servicer(0, 2), 10);
+        // Notes 7, 15, .. 55 are of investor 7: those of the loans 1, 2, 3, 5, 6, 7 and 9.
+        int[] last = {300, 700, 7, 0x2EE, 0, 0};
+        for (int what = 0; what < last.length; what++) {
+            due("investor(7, " + what + ")", x.investor(7, what), last[what]);
+        }
+        due("loan(9, 10)", x.loan(9, 10), 6);
+        due("loan(9, 11)", x.loan(9, 11), 300);
+        due("loan(9, 12)", x.loan(9, 12), 300);
+        due("note(59, 0)", x.note(59, 0), 3);
+        due("pay(9, 327)", x.pay(9, 327), 298);
+        due("note(59, 5)", x.note(59, 5), 3);
+        due("note(59, 3)", x.note(59, 3), 100);
+        due("sell(0, 400)", x.sell(0, 400), 200);
+        due("sell(9, 99)", x.sell(9, 99), 199);
+        due("count(13)", x.count(13), 399);
+        due("note(59, 6)", x.note(59, 6), 67);
+        for (int i = 1; i < 9; i++) {
+            x.switchServicer(i, 3);
+        }
+        due("count(15)", x.count(15), 8);
+        due("pass(1)", x.pass(1), 8);
+        due("servicer(3, 2)", x.servicer(3, 2), 8);
     }
 }
