@@ -518,6 +518,13 @@ public final class PromiseTests {
         due("note(0, 3)", x.note(0, 3), 15);
         due("investor(2, 0)", x.investor(2, 0), 1000 - 25 + 10);
 
+        // The last coin.
+        PeerNotes z = oneRunning(100, 0, 1);
+        due("pay(0, 99)", z.pay(0, 99), 1);
+        due("pay(0, 1)", z.pay(0, 1), 0);
+        due("note(0, 3)", z.note(0, 3), 0);
+        due("investor(0, 0)", z.investor(0, 0), 200000);
+
         // Interest that is greater than the weights together, and the greatest amounts.
         PeerNotes y = new PeerNotes();
         y.addInvestor(MOST - 1000000);
@@ -543,7 +550,7 @@ public final class PromiseTests {
         PeerNotes x = seniorAndJunior();
         x.keep();
         x.openLoan(900, 50, 1);
-        x.fund(0, 1, false, 900);
+        x.fund(0, 1, true, 900);
         due("pay(1, 450)", x.pay(1, 450), 452);
         due("restore()", x.restore(), 2);
         // Only the notes that are there have a weight: 600 and 400.
@@ -766,6 +773,12 @@ public final class PromiseTests {
         x.pass(1);
         due("loan(0, 7)", x.loan(0, 7), 3);
         due("loan(0, 8): gone with the month", x.loan(0, 8), NONE);
+        x.switchServicer(0, 2);
+        x.pass(1);
+        due("loan(0, 7)", x.loan(0, 7), 2);
+        x.undo();
+        due("loan(0, 7): undone", x.loan(0, 7), 3);
+        due("loan(0, 8): ordered again", x.loan(0, 8), 2);
     }
 
     private static void sellNote() {
@@ -1230,6 +1243,10 @@ public final class PromiseTests {
         due("investor(1, 5)", x.investor(1, 5), 30);
         due("investor(1, 2)", x.investor(1, 2), 1);
         due("investor(1, 3)", x.investor(1, 3), 4);
+        PeerNotes y = seniorAndJunior();
+        due("investor(0, 1) of note 0 alone", y.investor(0, 1), 600);
+        due("investor(0, 2) of note 0 alone", y.investor(0, 2), 1);
+        due("investor(0, 3) of note 0 alone", y.investor(0, 3), 1);
         x.giveUp(2);
         due("investor(1, 1)", x.investor(1, 1), 0);
         due("investor(1, 3)", x.investor(1, 3), 0);
