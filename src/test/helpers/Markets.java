@@ -3,14 +3,6 @@ import java.util.List;
 
 /** Markets to begin a test with, and all that is told of one. */
 final class Markets {
-    static final int UNKNOWN = PeerNotes.UNKNOWN;
-    static final int BAD_VALUE = PeerNotes.BAD_VALUE;
-    static final int FULL = PeerNotes.FULL;
-    static final int NOT_POSSIBLE = PeerNotes.NOT_POSSIBLE;
-    static final int NONE = PeerNotes.NONE;
-    static final int MOST = 2147483647;
-    static final int LEAST = -2147483648;
-
     private Markets() {
     }
 

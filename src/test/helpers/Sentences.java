@@ -6,13 +6,21 @@ import java.util.List;
 import java.util.function.Supplier;
 import java.util.function.ToIntFunction;
 
-/** Runs the tests of a class, each a static method that says which words of the document it holds the class to. */
-final class Sentences {
+/**
+ * What the classes of boundary tests have in common. Each of their tests is a static method that says which words of the
+ * document it holds the class to.
+ */
+abstract class Sentences {
+    static final int UNKNOWN = PeerNotes.UNKNOWN;
+    static final int BAD_VALUE = PeerNotes.BAD_VALUE;
+    static final int FULL = PeerNotes.FULL;
+    static final int NOT_POSSIBLE = PeerNotes.NOT_POSSIBLE;
+    static final int NONE = PeerNotes.NONE;
+    static final int MOST = Integer.MAX_VALUE;
+    static final int LEAST = Integer.MIN_VALUE;
+
     private static String test = "";
     private static int wrong = 0;
-
-    private Sentences() {
-    }
 
     /** Runs all tests of the class; ends with exit code 1 if one failed or there was none. */
     static void run(Class<?> tests) {

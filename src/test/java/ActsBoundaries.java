@@ -1,29 +1,7 @@
-import java.util.function.ToIntFunction;
-
 /** The boundary cases of the promises 1 to 13: a new object, who, and loans; a test each. */
-public final class ActsBoundaries {
-    private static final int UNKNOWN = Markets.UNKNOWN;
-    private static final int BAD_VALUE = Markets.BAD_VALUE;
-    private static final int FULL = Markets.FULL;
-    private static final int NOT_POSSIBLE = Markets.NOT_POSSIBLE;
-    private static final int NONE = Markets.NONE;
-    private static final int MOST = Markets.MOST;
-    private static final int LEAST = Markets.LEAST;
-
+public final class ActsBoundaries extends Sentences {
     public static void main(String[] args) {
-        Sentences.run(ActsBoundaries.class);
-    }
-
-    private static void due(String call, long got, long want) {
-        Sentences.due(call, got, want);
-    }
-
-    private static void dueRows(String call, int[] got, int... want) {
-        Sentences.dueRows(call, got, want);
-    }
-
-    private static void refused(String call, PeerNotes x, ToIntFunction<PeerNotes> method, int want) {
-        Sentences.refused(call, x, method, want);
+        run(ActsBoundaries.class);
     }
 
     // ---- 1
@@ -122,8 +100,8 @@ public final class ActsBoundaries {
 
     @Says(in = "Promise 2", value = "Adds an investor. This is an act.")
     static void addInvestorIsAnAct() {
-        Sentences.act("addInvestor(7)", PeerNotes::new, x -> x.addInvestor(7), 0);
-        Sentences.act("addInvestor(7)", Markets::ofEachState, x -> x.addInvestor(7), 2);
+        act("addInvestor(7)", PeerNotes::new, x -> x.addInvestor(7), 0);
+        act("addInvestor(7)", Markets::ofEachState, x -> x.addInvestor(7), 2);
     }
 
     // ---- 3
@@ -183,7 +161,7 @@ public final class ActsBoundaries {
 
     @Says(in = "Promise 3", value = "This is an act.")
     static void depositIsAnAct() {
-        Sentences.act("deposit(1, 7)", () -> Markets.withInvestors(3, 4), x -> x.deposit(1, 7), 11);
+        act("deposit(1, 7)", () -> Markets.withInvestors(3, 4), x -> x.deposit(1, 7), 11);
     }
 
     // ---- 4
@@ -224,7 +202,7 @@ public final class ActsBoundaries {
 
     @Says(in = "Promise 4", value = "Sets the share of the pool. This is an act.")
     static void setPoolShareIsAnAct() {
-        Sentences.act("setPoolShare(0)", PeerNotes::new, x -> x.setPoolShare(0), 49);
+        act("setPoolShare(0)", PeerNotes::new, x -> x.setPoolShare(0), 49);
     }
 
     // ---- 5
@@ -297,8 +275,8 @@ public final class ActsBoundaries {
 
     @Says(in = "Promise 5", value = "Opens a loan for funding. This is an act.")
     static void openLoanIsAnAct() {
-        Sentences.act("openLoan(100, 1, 1)", PeerNotes::new, x -> x.openLoan(100, 1, 1), 0);
-        Sentences.act("openLoan(100, 1, 1)", Markets::ofEachState, x -> x.openLoan(100, 1, 1), 5);
+        act("openLoan(100, 1, 1)", PeerNotes::new, x -> x.openLoan(100, 1, 1), 0);
+        act("openLoan(100, 1, 1)", Markets::ofEachState, x -> x.openLoan(100, 1, 1), 5);
     }
 
     // ---- 6
@@ -429,8 +407,8 @@ public final class ActsBoundaries {
 
     @Says(in = "Promise 6", value = "Funds a part of a loan: a note. This is an act.")
     static void fundIsAnAct() {
-        Sentences.act("fund(0, 0, true, 5)", Markets::ofEachState, x -> x.fund(0, 0, true, 5), 695);
-        Sentences.act("fund(0, 0, false, 700), so that it runs", Markets::ofEachState, x -> x.fund(0, 0, false, 700), 0);
+        act("fund(0, 0, true, 5)", Markets::ofEachState, x -> x.fund(0, 0, true, 5), 695);
+        act("fund(0, 0, false, 700), so that it runs", Markets::ofEachState, x -> x.fund(0, 0, false, 700), 0);
     }
 
     // ---- 7
@@ -477,6 +455,19 @@ public final class ActsBoundaries {
         dueRows("note(.., 3)", Markets.notes(x, 3), 0, 600, 400, 0, 0, 0);
     }
 
+    @Says(in = "Promise 7", value = "the principals of its notes are paid back")
+    static void giveUpPaysNoInterest() {
+        PeerNotes x = Markets.seniorAndJunior();
+        x.openLoan(500, 0, 1);
+        x.fund(0, 1, false, 100);
+        x.pass(1);
+        x.pay(0, 50);
+        due("giveUp(1) after a payment", x.giveUp(1), 100);
+        dueRows("investor(.., 0)", Markets.investors(x, 0), 9429, 9619);
+        dueRows("investor(.., 4)", Markets.investors(x, 4), 29, 19);
+        dueRows("note(.., 5)", Markets.notes(x, 5), 29, 19, 0);
+    }
+
     @Says(in = "Promise 7", value = "NOT_POSSIBLE if it is not in funding")
     static void giveUpInEachState() {
         PeerNotes x = Markets.ofEachState();
@@ -515,7 +506,7 @@ public final class ActsBoundaries {
 
     @Says(in = "Promise 7", value = "This is an act.")
     static void giveUpIsAnAct() {
-        Sentences.act("giveUp(0)", Markets::ofEachState, x -> x.giveUp(0), 300);
+        act("giveUp(0)", Markets::ofEachState, x -> x.giveUp(0), 300);
     }
 
     // ---- 8
@@ -661,8 +652,8 @@ public final class ActsBoundaries {
 
     @Says(in = "Promise 8", value = "Pays for a loan. This is an act.")
     static void payIsAnAct() {
-        Sentences.act("pay(1, 445)", Markets::ofEachState, x -> x.pay(1, 445), 597);
-        Sentences.act("pay(1, 1045), so that it is repaid", Markets::ofEachState, x -> x.pay(1, 1045), 0);
+        act("pay(1, 445)", Markets::ofEachState, x -> x.pay(1, 445), 597);
+        act("pay(1, 1045), so that it is repaid", Markets::ofEachState, x -> x.pay(1, 1045), 0);
     }
 
     // ---- 9
@@ -770,7 +761,7 @@ public final class ActsBoundaries {
 
     @Says(in = "Promise 9", value = "This is an act.")
     static void cureIsAnAct() {
-        Sentences.act("cure(0, 7)", () -> inArrears(3), x -> x.cure(0, 7), 143);
+        act("cure(0, 7)", () -> inArrears(3), x -> x.cure(0, 7), 143);
     }
 
     // ---- 10
@@ -888,7 +879,7 @@ public final class ActsBoundaries {
 
     @Says(in = "Promise 10", value = "This is an act.")
     static void sellIsAnAct() {
-        Sentences.act("sell(1, 700)", Markets::ofEachState, x -> x.sell(1, 700), 300);
+        act("sell(1, 700)", Markets::ofEachState, x -> x.sell(1, 700), 300);
     }
 
     // ---- 11
@@ -993,7 +984,7 @@ public final class ActsBoundaries {
 
     @Says(in = "Promise 11", value = "This is an act.")
     static void switchServicerIsAnAct() {
-        Sentences.act("switchServicer(1, 3)", Markets::ofEachState, x -> x.switchServicer(1, 3), 0);
+        act("switchServicer(1, 3)", Markets::ofEachState, x -> x.switchServicer(1, 3), 0);
     }
 
     // ---- 12
@@ -1111,7 +1102,7 @@ public final class ActsBoundaries {
 
     @Says(in = "Promise 12", value = "This is an act.")
     static void sellNoteIsAnAct() {
-        Sentences.act("sellNote(1, 1, 5)", Markets::ofEachState, x -> x.sellNote(1, 1, 5), 600);
+        act("sellNote(1, 1, 5)", Markets::ofEachState, x -> x.sellNote(1, 1, 5), 600);
     }
 
     // ---- 13
@@ -1139,7 +1130,7 @@ public final class ActsBoundaries {
         for (int i = 0; i < 24; i++) {
             y.pass(1);
         }
-        Sentences.same("pass(24), or pass(1) 24 times", Markets.told(x), Markets.told(y));
+        same("pass(24), or pass(1) 24 times", Markets.told(x), Markets.told(y));
         due("loan(0, 4)", x.loan(0, 4), 24 * 50);
         due("loan(0, 5)", x.loan(0, 5), 1000);
         due("loan(0, 6)", x.loan(0, 6), 23);
@@ -1198,6 +1189,6 @@ public final class ActsBoundaries {
 
     @Says(in = "Promise 13", value = "This is an act.")
     static void passIsAnAct() {
-        Sentences.act("pass(3)", Markets::ofEachState, x -> x.pass(3), 1);
+        act("pass(3)", Markets::ofEachState, x -> x.pass(3), 1);
     }
 }

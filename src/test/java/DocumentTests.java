@@ -64,8 +64,8 @@ public final class DocumentTests {
             } else if (line.startsWith("## Promise ")) {
                 name = line.substring(3, line.indexOf(':'));
             } else if (line.startsWith("#")) {
-                name = line.equals("## Terms") ? "Terms" : "";
-            } else if (!name.isEmpty() && !line.startsWith("Ahead of the calls ")) {
+                name = line.equals("## Terms") || line.equals("## What it is") ? line.substring(3) : "";
+            } else if (!name.isEmpty() && !line.matches("(Lending among peers:|Ahead of the calls) .*")) {
                 sections.merge(name, line, (before, next) -> before + "\n" + next);
             }
         }

@@ -94,63 +94,9 @@ public final class PromiseTests {
 
     // ---- helpers
 
-    private static void write(PeerNotes x, String text) {
-        x.clearText();
-        for (int i = 0; i < text.length(); i++) {
-            x.type(text.charAt(i));
-        }
-    }
-
-    private static int read(PeerNotes x, String text) {
-        write(x, text);
-        return x.readFundings();
-    }
-
-    /** One investor with some cash, and one loan that runs: one senior note of its amount. */
-    private static PeerNotes oneRunning(int amount, int rate, int months) {
-        PeerNotes x = new PeerNotes();
-        x.addInvestor(200000);
-        x.openLoan(amount, rate, months);
-        x.fund(0, 0, false, amount);
-        return x;
-    }
-
-    /** Two investors; loan 0 of 1000 at 50 for 10 months: note 0 (senior, 600, of 0), note 1 (junior, 400, of 1). */
-    private static PeerNotes seniorAndJunior() {
-        PeerNotes x = new PeerNotes();
-        x.addInvestor(10000);
-        x.addInvestor(10000);
-        x.openLoan(1000, 50, 10);
-        x.fund(0, 0, false, 600);
-        x.fund(1, 0, true, 400);
-        return x;
-    }
-
     /** What is told of everything but the text and the history, in one number. */
     private static long told(PeerNotes x) {
-        long sum = 7;
-        for (int what = 0; what <= 15; what++) {
-            sum = sum * 31 + x.count(what);
-        }
-        for (int i = 0; i < x.count(1); i++) {
-            for (int what = 0; what <= 5; what++) {
-                sum = sum * 31 + x.investor(i, what);
-            }
-        }
-        for (int i = 0; i < x.count(2); i++) {
-            for (int what = 0; what <= 12; what++) {
-                sum = sum * 31 + x.loan(i, what);
-            }
-        }
-        for (int i = 0; i < x.count(8); i++) {
-            for (int what = 0; what <= 6; what++) {
-                sum = sum * 31 + x.note(i, what);
-            }
-        }
-        for (int i = 0; i < 4; i++) {
-            sum = sum * 31 + x.servicer(i, 1);
-        }
-        return sum;
+        return Markets.told(x).hashCode();
     }
 
     // ---- the promises
@@ -374,12 +320,12 @@ public final class PromiseTests {
         due("giveUp(0) to the last room", x.giveUp(0), 550);
         due("investor(1, 0)", x.investor(1, 0), MOST);
 
-        PeerNotes running = oneRunning(100, 0, 1);
+        PeerNotes running = Markets.running(100, 0, 1);
         due("giveUp(0) when it runs", running.giveUp(0), NOT_POSSIBLE);
     }
 
     private static void giveUpAfterPayment() {
-        PeerNotes x = seniorAndJunior();
+        PeerNotes x = Markets.seniorAndJunior();
         x.openLoan(500, 0, 1);
         x.fund(0, 1, false, 100);
         x.pass(1);
@@ -393,7 +339,7 @@ public final class PromiseTests {
     }
 
     private static void pay() {
-        PeerNotes x = seniorAndJunior();
+        PeerNotes x = Markets.seniorAndJunior();
         x.pass(1);
         // Interest 50, principal 100 are due; the fee of 141 is 0, 50 are interest, 91 are principal.
         due("pay(0, 141)", x.pay(0, 141), 909);
@@ -447,7 +393,7 @@ public final class PromiseTests {
     }
 
     private static void payErrors() {
-        PeerNotes x = seniorAndJunior();
+        PeerNotes x = Markets.seniorAndJunior();
         x.openLoan(100, 0, 1);
         due("pay(-1, 1)", x.pay(-1, 1), UNKNOWN);
         due("pay(2, 0)", x.pay(2, 0), UNKNOWN);
@@ -473,7 +419,7 @@ public final class PromiseTests {
         due("pay(0, 1)", x.pay(0, 1), 1);
         due("investor(1, 0)", x.investor(1, 0), MOST);
 
-        PeerNotes y = seniorAndJunior();
+        PeerNotes y = Markets.seniorAndJunior();
         y.pass(1);
         y.deposit(1, MOST - 9600 - 18);
         // The interest of the junior note is 19: no room for it, though principal goes to the senior one only.
@@ -519,7 +465,7 @@ public final class PromiseTests {
         due("investor(2, 0)", x.investor(2, 0), 1000 - 25 + 10);
 
         // The last coin.
-        PeerNotes z = oneRunning(100, 0, 1);
+        PeerNotes z = Markets.running(100, 0, 1);
         due("pay(0, 99)", z.pay(0, 99), 1);
         due("pay(0, 1)", z.pay(0, 1), 0);
         due("note(0, 3)", z.note(0, 3), 0);
@@ -547,7 +493,7 @@ public final class PromiseTests {
     }
 
     private static void payAfterUndo() {
-        PeerNotes x = seniorAndJunior();
+        PeerNotes x = Markets.seniorAndJunior();
         x.keep();
         x.openLoan(900, 50, 1);
         x.fund(0, 1, true, 900);
@@ -561,7 +507,7 @@ public final class PromiseTests {
     }
 
     private static void cure() {
-        PeerNotes x = seniorAndJunior();
+        PeerNotes x = Markets.seniorAndJunior();
         x.openLoan(100, 0, 1);
         due("cure(-1, 1)", x.cure(-1, 1), UNKNOWN);
         due("cure(2, 0)", x.cure(2, 0), UNKNOWN);
@@ -704,7 +650,7 @@ public final class PromiseTests {
     }
 
     private static void sellErrors() {
-        PeerNotes x = seniorAndJunior();
+        PeerNotes x = Markets.seniorAndJunior();
         x.openLoan(100, 0, 1);
         x.pass(4);
         due("loan(0, 6)", x.loan(0, 6), 3);
@@ -722,7 +668,7 @@ public final class PromiseTests {
         due("investor(0, 0)", x.investor(0, 0), MOST);
 
         // The coins of the pool need room too.
-        PeerNotes y = seniorAndJunior();
+        PeerNotes y = Markets.seniorAndJunior();
         y.pass(4);
         y.pay(0, 201);
         due("count(9)", y.count(9), 10);
@@ -737,7 +683,7 @@ public final class PromiseTests {
     }
 
     private static void switchServicer() {
-        PeerNotes x = seniorAndJunior();
+        PeerNotes x = Markets.seniorAndJunior();
         x.openLoan(100, 0, 1);
         due("switchServicer(-1, 0)", x.switchServicer(-1, 0), UNKNOWN);
         due("switchServicer(2, 0)", x.switchServicer(2, 0), UNKNOWN);
@@ -782,7 +728,7 @@ public final class PromiseTests {
     }
 
     private static void sellNote() {
-        PeerNotes x = seniorAndJunior();
+        PeerNotes x = Markets.seniorAndJunior();
         x.openLoan(200, 0, 1);
         x.fund(0, 1, false, 100);
         due("sellNote(-1, 1, 1)", x.sellNote(-1, 1, 1), UNKNOWN);
@@ -829,7 +775,7 @@ public final class PromiseTests {
         due("investor(1, 4)", x.investor(1, 4), 19 + 48);
         due("investor(0, 4)", x.investor(0, 4), 29);
 
-        PeerNotes y = seniorAndJunior();
+        PeerNotes y = Markets.seniorAndJunior();
         y.pay(0, 603);
         due("sellNote(0, 1, 5) without principal", y.sellNote(0, 1, 5), 0);
         y.pay(0, 402);
@@ -838,7 +784,7 @@ public final class PromiseTests {
     }
 
     private static void pass() {
-        PeerNotes x = seniorAndJunior();
+        PeerNotes x = Markets.seniorAndJunior();
         due("pass(0)", x.pass(0), BAD_VALUE);
         due("pass(-1)", x.pass(-1), BAD_VALUE);
         due("pass(25)", x.pass(25), BAD_VALUE);
@@ -896,14 +842,14 @@ public final class PromiseTests {
         due("loan(0, 4)", x.loan(0, 4), 0);
 
         // One coin that is due is enough for arrears.
-        PeerNotes z = oneRunning(100, 0, 10);
+        PeerNotes z = Markets.running(100, 0, 10);
         z.pass(1);
         z.pay(0, 9);
         due("loan(0, 5)", z.loan(0, 5), 1);
         due("pass(1)", z.pass(1), 1);
 
         // A payment ahead: in the month nothing was due, so there are no arrears.
-        PeerNotes y = oneRunning(1000, 10, 10);
+        PeerNotes y = Markets.running(1000, 10, 10);
         due("pay(0, 201)", y.pay(0, 201), 800);
         y.pass(1);
         due("loan(0, 4)", y.loan(0, 4), 8);
@@ -933,7 +879,7 @@ public final class PromiseTests {
     private static void clearText() {
         PeerNotes x = new PeerNotes();
         due("clearText()", x.clearText(), 0);
-        write(x, "0>0s5");
+        Markets.write(x, "0>0s5");
         due("clearText()", x.clearText(), 5);
         due("count(17)", x.count(17), 0);
         due("clearText()", x.clearText(), 0);
@@ -950,7 +896,7 @@ public final class PromiseTests {
         x.openLoan(500, 10, 5);
         x.openLoan(1000, 10, 5);
         x.setPoolShare(7);
-        due("read", read(x, "0>0s100;1>0j400;1>1s5"), 3);
+        due("read", Markets.read(x, "0>0s100;1>0j400;1>1s5"), 3);
         due("count(17): the text stays", x.count(17), 21);
         due("count(16): one act", x.count(16), 4);
         due("loan(0, 0)", x.loan(0, 0), 1);
@@ -967,7 +913,7 @@ public final class PromiseTests {
         due("loan(0, 0)", x.loan(0, 0), 0);
         due("count(17)", x.count(17), 21);
         due("readFundings() again", x.readFundings(), 3);
-        due("the longest text", read(x, "0>1s1;0>1s1;0>1s1;0>1s1;0>1s1;0>1s1;0>1s1;0>1s1;0>1s1;0>1j9"), 10);
+        due("the longest text", Markets.read(x, "0>1s1;0>1s1;0>1s1;0>1s1;0>1s1;0>1s1;0>1s1;0>1s1;0>1s1;0>1j9"), 10);
         due("count(8)", x.count(8), 13);
         due("note(12, 3)", x.note(12, 3), 9);
         due("note(12, 2)", x.note(12, 2), 1);
@@ -986,14 +932,14 @@ public final class PromiseTests {
             9, 4, 0, 0, 2, 2, 1, 7, 6,
             60};
         for (int i = 0; i < texts.length; i++) {
-            due("read \"" + texts[i] + "\"", read(x, texts[i]), -100 - faults[i]);
+            due("read \"" + texts[i] + "\"", Markets.read(x, texts[i]), -100 - faults[i]);
         }
         x.clearText();
         x.type((char) ('0' + 256));
         due("read a sign beyond 255", x.readFundings(), -100);
         due("count(8)", x.count(8), 0);
         due("count(16)", x.count(16), 2);
-        due("read", read(x, "0>0s99999"), 1);
+        due("read", Markets.read(x, "0>0s99999"), 1);
     }
 
     private static void readErrors() {
@@ -1003,15 +949,15 @@ public final class PromiseTests {
         x.openLoan(150, 10, 5);
         long told = told(x);
         int states = x.count(16);
-        due("an unknown investor", read(x, "0>0s50;8>0s1"), UNKNOWN);
-        due("an unknown loan", read(x, "0>0s50;0>1s1"), UNKNOWN);
-        due("the first error counts", read(x, "0>0s101;2>0s1"), NOT_POSSIBLE);
-        due("cash of the one before", read(x, "0>0s60;0>0j41"), NOT_POSSIBLE);
-        due("more than are missing by then", read(x, "0>0s60;1>0j91"), NOT_POSSIBLE);
-        due("it runs by then", read(x, "0>0s60;1>0j90;1>0j1;2>0s1"), NOT_POSSIBLE);
+        due("an unknown investor", Markets.read(x, "0>0s50;8>0s1"), UNKNOWN);
+        due("an unknown loan", Markets.read(x, "0>0s50;0>1s1"), UNKNOWN);
+        due("the first error counts", Markets.read(x, "0>0s101;2>0s1"), NOT_POSSIBLE);
+        due("cash of the one before", Markets.read(x, "0>0s60;0>0j41"), NOT_POSSIBLE);
+        due("more than are missing by then", Markets.read(x, "0>0s60;1>0j91"), NOT_POSSIBLE);
+        due("it runs by then", Markets.read(x, "0>0s60;1>0j90;1>0j1;2>0s1"), NOT_POSSIBLE);
         due("told", told(x), told);
         due("count(16)", x.count(16), states);
-        due("read", read(x, "0>0s60;1>0j90"), 2);
+        due("read", Markets.read(x, "0>0s60;1>0j90"), 2);
         due("loan(0, 0)", x.loan(0, 0), 1);
         due("readFundings() again", x.readFundings(), NOT_POSSIBLE);
 
@@ -1022,9 +968,9 @@ public final class PromiseTests {
             y.fund(0, 0, false, 1);
         }
         y.pass(1);
-        due("no room for the third", read(y, "0>0s1;0>0s1;0>0s1"), FULL);
+        due("no room for the third", Markets.read(y, "0>0s1;0>0s1;0>0s1"), FULL);
         due("count(8)", y.count(8), 58);
-        due("room for two", read(y, "0>0s1;0>0s1"), 2);
+        due("room for two", Markets.read(y, "0>0s1;0>0s1"), 2);
         due("count(8)", y.count(8), 60);
         // A reading that failed has dropped no state: pass and three fundings are there still.
         y.undo();
@@ -1053,8 +999,8 @@ public final class PromiseTests {
         due("count(1)", x.count(1), 2);
 
         // Two markets that are made alike: all that is told nine times is more than an object's 512 calls.
-        PeerNotes y = seniorAndJunior();
-        PeerNotes twin = seniorAndJunior();
+        PeerNotes y = Markets.seniorAndJunior();
+        PeerNotes twin = Markets.seniorAndJunior();
         long[] told = new long[5];
         for (int act = 0; act < 5; act++) {
             undoneAct(twin, act);
@@ -1078,7 +1024,7 @@ public final class PromiseTests {
     }
 
     private static void keep() {
-        PeerNotes x = seniorAndJunior();
+        PeerNotes x = Markets.seniorAndJunior();
         due("keep()", x.keep(), 2);
         due("count(16): no act", x.count(16), 4);
         x.openLoan(100, 0, 1);
@@ -1249,7 +1195,7 @@ public final class PromiseTests {
         due("investor(1, 5)", x.investor(1, 5), 30);
         due("investor(1, 2)", x.investor(1, 2), 1);
         due("investor(1, 3)", x.investor(1, 3), 4);
-        PeerNotes y = seniorAndJunior();
+        PeerNotes y = Markets.seniorAndJunior();
         due("investor(0, 1) of note 0 alone", y.investor(0, 1), 600);
         due("investor(0, 2) of note 0 alone", y.investor(0, 2), 1);
         due("investor(0, 3) of note 0 alone", y.investor(0, 3), 1);
@@ -1340,7 +1286,7 @@ public final class PromiseTests {
     }
 
     private static void split() {
-        PeerNotes x = seniorAndJunior();
+        PeerNotes x = Markets.seniorAndJunior();
         x.openLoan(100, 0, 1);
         x.setPoolShare(7);
         x.pass(2);
@@ -1375,7 +1321,7 @@ public final class PromiseTests {
     }
 
     private static void toRepay() {
-        PeerNotes x = seniorAndJunior();
+        PeerNotes x = Markets.seniorAndJunior();
         x.openLoan(100, 0, 1);
         due("toRepay(-1)", x.toRepay(-1), UNKNOWN);
         due("toRepay(2)", x.toRepay(2), UNKNOWN);
@@ -1399,7 +1345,7 @@ public final class PromiseTests {
             x.undo();
         }
 
-        PeerNotes y = oneRunning(99999, 50, 1);
+        PeerNotes y = Markets.running(99999, 50, 1);
         y.switchServicer(0, 3);
         for (int i = 0; i < 10; i++) {
             y.pass(24);
@@ -1409,7 +1355,7 @@ public final class PromiseTests {
     }
 
     private static void servicer() {
-        PeerNotes x = seniorAndJunior();
+        PeerNotes x = Markets.seniorAndJunior();
         x.openLoan(1000, 0, 1);
         x.fund(0, 1, false, 1000);
         x.openLoan(1000, 0, 1);

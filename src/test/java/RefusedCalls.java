@@ -8,19 +8,12 @@ import java.util.function.ToIntFunction;
  * "A call that returns an error or NONE changes nothing": each such call is made on one of two markets that were made
  * alike, and whatever is called later must answer the same on both. The same for calls that only ask.
  */
-public final class RefusedCalls {
-    private static final int UNKNOWN = Markets.UNKNOWN;
-    private static final int BAD_VALUE = Markets.BAD_VALUE;
-    private static final int FULL = Markets.FULL;
-    private static final int NOT_POSSIBLE = Markets.NOT_POSSIBLE;
-    private static final int NONE = Markets.NONE;
-    private static final int MOST = Markets.MOST;
-
+public final class RefusedCalls extends Sentences {
     private record Call(String name, ToIntFunction<PeerNotes> method, int due) {
     }
 
     public static void main(String[] args) {
-        Sentences.run(RefusedCalls.class);
+        run(RefusedCalls.class);
     }
 
     // ---- the calls that come later
@@ -110,11 +103,11 @@ public final class RefusedCalls {
         List<Consumer<PeerNotes>> laterWant = later(want);
         for (int i = 0; i < laterGot.size(); i++) {
             PeerNotes x = market.get();
-            Sentences.due(call.name, call.method.applyAsInt(x), call.due);
+            due(call.name, call.method.applyAsInt(x), call.due);
             laterGot.get(i).accept(x);
             laterWant.get(i).accept(market.get());
         }
-        Sentences.same("after " + call.name, got, want);
+        same("after " + call.name, got, want);
     }
 
     private static void changeNothing(Supplier<PeerNotes> market, List<Call> calls) {

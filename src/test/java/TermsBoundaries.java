@@ -1,24 +1,30 @@
 import java.util.List;
 
-/** The boundary cases of the section "Terms", a test each. */
-public final class TermsBoundaries {
-    private static final int UNKNOWN = Markets.UNKNOWN;
-    private static final int BAD_VALUE = Markets.BAD_VALUE;
-    private static final int FULL = Markets.FULL;
-    private static final int NOT_POSSIBLE = Markets.NOT_POSSIBLE;
-    private static final int NONE = Markets.NONE;
-    private static final int MOST = Markets.MOST;
-
+/** The boundary cases of the sections "What it is" and "Terms", a test each. */
+public final class TermsBoundaries extends Sentences {
     public static void main(String[] args) {
-        Sentences.run(TermsBoundaries.class);
+        run(TermsBoundaries.class);
     }
 
-    private static void due(String call, long got, long want) {
-        Sentences.due(call, got, want);
+    // ---- What it is
+
+    private static PeerNotes after511Calls() {
+        PeerNotes x = new PeerNotes();
+        due("addInvestor(0)", x.addInvestor(0), 0);
+        for (int coins = 1; coins <= 510; coins++) {
+            due("deposit(0, 1)", x.deposit(0, 1), coins);
+        }
+        return x;
     }
 
-    private static void dueRows(String call, int[] got, int... want) {
-        Sentences.dueRows(call, got, want);
+    @Says(in = "What it is", value = "An object is used for at most 512 calls after it has been made; what "
+        + "later calls answer is free.")
+    static void theLastCall() {
+        due("investor(0, 0)", after511Calls().investor(0, 0), 510);
+        due("deposit(0, 1)", after511Calls().deposit(0, 1), 511);
+        due("undo()", after511Calls().undo(), 3);
+        due("count(16)", after511Calls().count(16), 4);
+        due("pass(24)", after511Calls().pass(24), 0);
     }
 
     // ---- WHO
@@ -900,6 +906,23 @@ public final class TermsBoundaries {
         due("pass(1)", x.pass(1), 0);
     }
 
+    @Says(in = "SALE", value = "When a loan is repaid, sold or given up, it is 0 months in arrears, and a switch that was "
+        + "ordered for it is gone.")
+    static void itsServicerStaysWhenItEnds() {
+        PeerNotes repaid = Markets.runningWith(2, 1000, 0, 10);
+        repaid.switchServicer(0, 3);
+        due("pay(0, 1020)", repaid.pay(0, 1020), 0);
+        dueRows("loan(0, ..)", Markets.loan(repaid, 0), 2, 1000, 0, 100, 0, 0, 0, 2, NONE, 0, 1, 0, 0);
+        due("servicer(2, 2)", repaid.servicer(2, 2), 0);
+        due("servicer(2, 1)", repaid.servicer(2, 1), 20);
+        PeerNotes sold = Markets.runningWith(1, 1000, 0, 10);
+        sold.pass(3);
+        sold.switchServicer(0, 3);
+        due("sell(0, 999)", sold.sell(0, 999), 1);
+        dueRows("loan(0, ..)", Markets.loan(sold, 0), 3, 1000, 0, 100, 0, 0, 0, 1, NONE, 0, 1, 0, 0);
+        due("servicer(1, 2)", sold.servicer(1, 2), 0);
+    }
+
     // ---- TEXTS
 
     @Says(in = "TEXTS", value = "There is a text of at most 60 characters, empty at first.")
@@ -1096,11 +1119,11 @@ public final class TermsBoundaries {
     static void errorsAndNoneRecordNothing() {
         PeerNotes x = Markets.withInvestors(10);
         x.openLoan(100, 0, 1);
-        Sentences.refused("addInvestor(-1)", x, y -> y.addInvestor(-1), BAD_VALUE);
-        Sentences.refused("setPoolShare(5)", x, y -> y.setPoolShare(5), NONE);
-        Sentences.refused("fund(0, 0, false, 11)", x, y -> y.fund(0, 0, false, 11), NOT_POSSIBLE);
-        Sentences.refused("restore()", x, PeerNotes::restore, NONE);
-        Sentences.refused("readFundings()", x, PeerNotes::readFundings, -100);
+        refused("addInvestor(-1)", x, y -> y.addInvestor(-1), BAD_VALUE);
+        refused("setPoolShare(5)", x, y -> y.setPoolShare(5), NONE);
+        refused("fund(0, 0, false, 11)", x, y -> y.fund(0, 0, false, 11), NOT_POSSIBLE);
+        refused("restore()", x, PeerNotes::restore, NONE);
+        refused("readFundings()", x, PeerNotes::readFundings, -100);
         due("undo()", x.undo(), 1);
         due("count(2)", x.count(2), 0);
     }
@@ -1164,7 +1187,7 @@ public final class TermsBoundaries {
         for (int left = 3; left >= 0; left--) {
             due("undo()", x.undo(), left);
         }
-        Sentences.same("after four acts that are undone", Markets.told(x), before);
+        same("after four acts that are undone", Markets.told(x), before);
     }
 
     // ---- ERRORS
@@ -1199,7 +1222,7 @@ public final class TermsBoundaries {
         due("sellNote(1, 0, 0)", x.sellNote(1, 0, 0), BAD_VALUE);
         due("setPoolShare(5)", x.setPoolShare(5), NONE);
         due("sell(9, 5)", x.sell(9, 5), UNKNOWN);
-        Sentences.same("after refused calls", Markets.told(x), before);
+        same("after refused calls", Markets.told(x), before);
     }
 
     @Says(in = "ERRORS", value = {"`UNKNOWN = -1`", "`BAD_VALUE = -2`", "`FULL = -3`", "`NOT_POSSIBLE = -4`", "`NONE = -5`"})

@@ -1,27 +1,9 @@
 import java.util.List;
-import java.util.function.ToIntFunction;
 
 /** The boundary cases of the promises 14 to 19: texts and history; a test each. */
-public final class TextsAndHistoryBoundaries {
-    private static final int UNKNOWN = Markets.UNKNOWN;
-    private static final int FULL = Markets.FULL;
-    private static final int NOT_POSSIBLE = Markets.NOT_POSSIBLE;
-    private static final int NONE = Markets.NONE;
-
+public final class TextsAndHistoryBoundaries extends Sentences {
     public static void main(String[] args) {
-        Sentences.run(TextsAndHistoryBoundaries.class);
-    }
-
-    private static void due(String call, long got, long want) {
-        Sentences.due(call, got, want);
-    }
-
-    private static void dueRows(String call, int[] got, int... want) {
-        Sentences.dueRows(call, got, want);
-    }
-
-    private static void refused(String call, PeerNotes x, ToIntFunction<PeerNotes> method, int want) {
-        Sentences.refused(call, x, method, want);
+        run(TextsAndHistoryBoundaries.class);
     }
 
     // ---- 14
@@ -77,8 +59,8 @@ public final class TextsAndHistoryBoundaries {
 
     @Says(in = "Promise 14", value = "Types a character behind the text.")
     static void typeIsNoAct() {
-        Sentences.noAct("type('0')", new PeerNotes(), x -> x.type('0'));
-        Sentences.noAct("type('0')", Markets.withInvestors(1), x -> x.type('0'));
+        noAct("type('0')", new PeerNotes(), x -> x.type('0'));
+        noAct("type('0')", Markets.withInvestors(1), x -> x.type('0'));
     }
 
     // ---- 15
@@ -117,8 +99,8 @@ public final class TextsAndHistoryBoundaries {
     static void clearTextIsNoAct() {
         PeerNotes x = Markets.withInvestors(1);
         x.type('5');
-        Sentences.noAct("clearText()", x, PeerNotes::clearText);
-        Sentences.noAct("clearText() of an empty text", x, PeerNotes::clearText);
+        noAct("clearText()", x, PeerNotes::clearText);
+        noAct("clearText() of an empty text", x, PeerNotes::clearText);
     }
 
     // ---- 16
@@ -160,8 +142,8 @@ public final class TextsAndHistoryBoundaries {
 
     @Says(in = "Promise 16", value = "all of them, or none. This is one act.")
     static void readFundingsIsOneAct() {
-        Sentences.act("readFundings() of one", () -> withText("0>0s5"), PeerNotes::readFundings, 1);
-        Sentences.act("readFundings() of three", () -> withText("0>0s5;1>0j6;0>0s689"), PeerNotes::readFundings, 3);
+        act("readFundings() of one", () -> withText("0>0s5"), PeerNotes::readFundings, 1);
+        act("readFundings() of three", () -> withText("0>0s5;1>0j6;0>0s689"), PeerNotes::readFundings, 3);
     }
 
     @Says(in = "Promise 16", value = "all of them, or none")
@@ -169,7 +151,7 @@ public final class TextsAndHistoryBoundaries {
         PeerNotes x = withText("0>0s5;1>0j6;0>0s690");
         List<String> before = Markets.told(x);
         refused("readFundings()", x, PeerNotes::readFundings, NOT_POSSIBLE);
-        Sentences.same("after it", Markets.told(x), before);
+        same("after it", Markets.told(x), before);
         due("undo(): of the act before", x.undo(), 3);
         due("loan(4, 0)", x.loan(4, 0), 0);
     }
@@ -179,7 +161,7 @@ public final class TextsAndHistoryBoundaries {
         PeerNotes x = withText("0>0s701;1>0j6");
         List<String> before = Markets.told(x);
         refused("readFundings()", x, PeerNotes::readFundings, NOT_POSSIBLE);
-        Sentences.same("after it", Markets.told(x), before);
+        same("after it", Markets.told(x), before);
     }
 
     @Says(in = "Promise 16", value = "all of them, or none")
@@ -312,6 +294,20 @@ public final class TextsAndHistoryBoundaries {
         due("count(1)", x.count(1), 0);
     }
 
+    @Says(in = "Promise 17", value = "Removes and restores the latest state of the history.")
+    static void notesThatWereUndoneHaveNoWeight() {
+        PeerNotes x = Markets.noteByNote(0, 1, 60, 40);
+        x.addInvestor(500);
+        x.openLoan(500, 0, 1);
+        x.fund(2, 1, false, 500);
+        due("pay(1, 10): a sharing with note 2", x.pay(1, 10), 490);
+        x.undo();
+        x.undo();
+        due("count(8)", x.count(8), 2);
+        due("pay(0, 10)", x.pay(0, 10), 90);
+        dueRows("note(.., 3)", Markets.notes(x, 3), 54, 36);
+    }
+
     // ---- 18
 
     @Says(in = "Promise 18", value = "Returns the number of notes.")
@@ -349,7 +345,7 @@ public final class TextsAndHistoryBoundaries {
     @Says(in = "Promise 18", value = "Takes a snapshot of the state")
     static void keepIsNoActAndIsNotUndone() {
         PeerNotes x = Markets.withInvestors(1);
-        Sentences.noAct("keep()", x, PeerNotes::keep);
+        noAct("keep()", x, PeerNotes::keep);
         x.addInvestor(2);
         x.undo();
         x.undo();
@@ -392,12 +388,37 @@ public final class TextsAndHistoryBoundaries {
         x.sell(1, 5);
         x.addInvestor(8);
         due("restore() again", x.restore(), 6);
-        Sentences.same("after two changes and returns", Markets.told(x), kept);
+        same("after two changes and returns", Markets.told(x), kept);
+    }
+
+    @Says(in = "Promise 19", value = "Restores the state of the snapshot")
+    static void rowsThatWereUsedOtherwiseSince() {
+        PeerNotes x = Markets.withInvestors(1000, 1000);
+        x.openLoan(500, 10, 5);
+        x.openLoan(600, 20, 6);
+        x.fund(1, 1, true, 600);
+        x.keep();
+        for (int i = 0; i < 4; i++) {
+            x.undo();
+        }
+        x.addInvestor(7000);
+        x.openLoan(700, 30, 7);
+        x.openLoan(800, 40, 8);
+        x.fund(0, 0, false, 50);
+        due("restore()", x.restore(), 1);
+        dueRows("note(0, ..)", Markets.note(x, 0), 1, 1, 1, 600, 600, 0, 0);
+        dueRows("loan(0, ..)", Markets.loan(x, 0), 0, 500, 0, NONE, 0, 0, 0, 0, NONE, 500, 0, 0, 0);
+        dueRows("investor(.., 0)", Markets.investors(x, 0), 1000, 400);
+        due("fund(0, 0, false, 500)", x.fund(0, 0, false, 500), 0);
+        due("loan(0, 3): its months", x.loan(0, 3), 100);
+        x.pass(1);
+        due("loan(0, 4): its rate", x.loan(0, 4), 5);
+        due("loan(1, 4): its rate", x.loan(1, 4), 12);
     }
 
     @Says(in = "Promise 19", value = "This is an act.")
     static void restoreIsAnAct() {
-        Sentences.act("restore()", TextsAndHistoryBoundaries::withAnotherSnapshot, PeerNotes::restore, 0);
+        act("restore()", TextsAndHistoryBoundaries::withAnotherSnapshot, PeerNotes::restore, 0);
         PeerNotes x = new PeerNotes();
         x.keep();
         due("restore() of the same state", x.restore(), 0);

@@ -1,28 +1,7 @@
-import java.util.function.ToIntFunction;
-
 /** The boundary cases of the promises 20 to 26: what is told; a test each. */
-public final class ToldBoundaries {
-    private static final int UNKNOWN = Markets.UNKNOWN;
-    private static final int BAD_VALUE = Markets.BAD_VALUE;
-    private static final int NOT_POSSIBLE = Markets.NOT_POSSIBLE;
-    private static final int NONE = Markets.NONE;
-    private static final int MOST = Markets.MOST;
-    private static final int LEAST = Markets.LEAST;
-
+public final class ToldBoundaries extends Sentences {
     public static void main(String[] args) {
-        Sentences.run(ToldBoundaries.class);
-    }
-
-    private static void due(String call, long got, long want) {
-        Sentences.due(call, got, want);
-    }
-
-    private static void dueRows(String call, int[] got, int... want) {
-        Sentences.dueRows(call, got, want);
-    }
-
-    private static void refused(String call, PeerNotes x, ToIntFunction<PeerNotes> method, int want) {
-        Sentences.refused(call, x, method, want);
+        run(ToldBoundaries.class);
     }
 
     // ---- 20
@@ -73,6 +52,17 @@ public final class ToldBoundaries {
         dueRows("investor(0, ..): a coin is left", Markets.investor(x, 0), 999, 1, 1, 1, 0, 0);
         x.pay(0, 1);
         dueRows("investor(0, ..): it is repaid", Markets.investor(x, 0), 1000, 0, 0, 0, 0, 0);
+    }
+
+    @Says(in = "Promise 20", value = {"1 for the principals of the investor's notes together",
+        "2 for the number of notes whose principal is not 0"})
+    static void notesOfOthersDoNotCount() {
+        PeerNotes x = Markets.noteByNote(0, 1, 10, 20, -70);
+        x.addInvestor(5);
+        dueRows("investor(0, ..)", Markets.investor(x, 0), 0, 10, 1, 1, 0, 0);
+        dueRows("investor(1, ..)", Markets.investor(x, 1), 0, 20, 1, 1, 0, 0);
+        dueRows("investor(2, ..)", Markets.investor(x, 2), 0, 70, 1, 1, 0, 0);
+        dueRows("investor(3, ..)", Markets.investor(x, 3), 5, 0, 0, 0, 0, 0);
     }
 
     @Says(in = "Promise 20", value = "3 for the loans for which the investor has any such note (as bits)")
@@ -372,7 +362,7 @@ public final class ToldBoundaries {
         PeerNotes x = Markets.seniorAndJunior();
         x.pass(1);
         x.deposit(0, MOST - 9400);
-        due("pay(0, 50)", x.pay(0, 50), Markets.FULL);
+        due("pay(0, 50)", x.pay(0, 50), FULL);
         dueRows("split(0, 50, ..)", Markets.split(x, 0, 50), 0, 50, 2, 0, 0, 0);
     }
 
