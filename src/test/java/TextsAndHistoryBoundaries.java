@@ -299,7 +299,7 @@ public final class TextsAndHistoryBoundaries extends Sentences {
         PeerNotes x = Markets.noteByNote(0, 1, 60, 40);
         x.addInvestor(500);
         x.openLoan(500, 0, 1);
-        x.fund(2, 1, false, 500);
+        x.fund(2, 1, true, 500);
         due("pay(1, 10): a sharing with note 2", x.pay(1, 10), 490);
         x.undo();
         x.undo();
