@@ -3,34 +3,27 @@ import java.lang.reflect.Method;
 import java.nio.file.Files;
 import java.nio.file.Path;
 import java.util.ArrayList;
+import java.util.Arrays;
 import java.util.LinkedHashMap;
 import java.util.List;
 import java.util.Map;
+import java.util.regex.Matcher;
+import java.util.regex.Pattern;
 
 /**
- * Holds the tests to the document: the words that a test says stand there, and each sentence of the terms and of the
- * promises is said by a test. Run from the project's root.
+ * Holds the tests to the document: the words that a test says stand there, and each word of its first section, of
+ * the terms and of the promises is said by a test. Holds the source to the face and to the order that the document
+ * gives it. Run from the project's root.
  */
 public final class DocumentTests {
     private static final Path DOCUMENT = Path.of("../shared/DOC.md");
     private static final List<Class<?>> TESTS = List.of(TermsBoundaries.class, ActsBoundaries.class,
         TextsAndHistoryBoundaries.class, ToldBoundaries.class, RefusedCalls.class);
 
-    /** What names no boundary case: it only leads to what does, or is told by the tests of what it names. */
-    private static final List<String> WITHOUT_BOUNDARIES = List.of(
-        "All amounts are whole coins",
-        "When coins are shared among notes by some weights",
-        "A payment of a loan that runs is split in this order:",
-        "Errors are reported by the constants below",
-        "The constants:",
-        "There is no such investor, servicer, loan or note",
-        "Another argument is out of range",
-        "There is no more room",
-        "This is not possible",
-        "There is no such thing",
-        "not an error",
-        "Returns the number",
-        "Returns the coins");
+    private static final Path SOURCE = Path.of("src/main/java/PeerNotes.java");
+
+    /** "Ahead of the calls `a`, `b` the interface says: ---- c." */
+    private static final Pattern AHEAD = Pattern.compile("Ahead of the calls (`.*`) the interface says: (---- .*)\\.");
 
     private static int wrong = 0;
 
@@ -42,8 +35,10 @@ public final class DocumentTests {
         Map<String, String> sections = sections();
         Map<String, List<String>> said = said();
         wordsStandThere(sections, said);
-        int sentences = everySentenceIsSaid(sections, said);
-        System.out.println(sentences + " pieces of the document looked at, " + wrong + " faults");
+        int words = everyWordIsSaid(sections, said);
+        faceStandsInTheSource();
+        headingsStandInTheSource();
+        System.out.println(words + " words of the document looked at, " + wrong + " faults");
         if (wrong != 0) {
             System.exit(1);
         }
@@ -65,7 +60,7 @@ public final class DocumentTests {
                 name = line.substring(3, line.indexOf(':'));
             } else if (line.startsWith("#")) {
                 name = line.equals("## Terms") || line.equals("## What it is") ? line.substring(3) : "";
-            } else if (!name.isEmpty() && !line.matches("(Lending among peers:|Ahead of the calls) .*")) {
+            } else if (!name.isEmpty() && !line.matches(AHEAD.pattern())) {
                 sections.merge(name, line, (before, next) -> before + "\n" + next);
             }
         }
@@ -93,33 +88,79 @@ public final class DocumentTests {
         });
     }
 
-    private static int everySentenceIsSaid(Map<String, String> sections, Map<String, List<String>> said) {
-        int looked = 0;
+    /** Returns how many words were looked at. */
+    private static int everyWordIsSaid(Map<String, String> sections, Map<String, List<String>> said) {
+        int words = 0;
         for (Map.Entry<String, String> section : sections.entrySet()) {
-            List<String> all = said.getOrDefault(section.getKey(), List.of());
-            for (String piece : pieces(section.getValue())) {
-                looked++;
-                boolean free = WITHOUT_BOUNDARIES.contains(piece);
-                if (!free && all.stream().noneMatch(words -> words.contains(piece) || piece.contains(words))) {
-                    fault("no test says what stands in the section " + section.getKey() + ": " + piece);
+            // The signature of a call is looked for in the source.
+            String text = section.getValue().replaceAll("(?m)^(`(int )?\\w+\\(.*?\\)`: |[0-9]\\. )", "");
+            words += text.split("\\W+").length;
+            for (String unsaid : withoutSaid(text, said.getOrDefault(section.getKey(), List.of())).split("\n")) {
+                if (unsaid.matches(".*\\w.*")) {
+                    fault("no test says what stands in the section " + section.getKey() + ": " + unsaid.strip());
                 }
             }
         }
-        return looked;
+        return words;
     }
 
-    /** The sentences of a section, those with ";" or a list of numbers in parts. */
-    private static List<String> pieces(String section) {
-        List<String> pieces = new ArrayList<>();
-        for (String line : section.split("\n")) {
-            String text = line.replaceFirst("^`[^`]*\\(.*\\)`: ", "").replaceFirst("^[0-9]\\. ", "");
-            for (String piece : text.split("(?<=[.;:])\\s+(?!`)|, (?=[0-9]+ (to [0-9]+ )?for )")) {
-                String words = piece.replaceFirst("[.;]$", "").trim();
-                if (!words.isEmpty() && !words.matches("`.*`:") && !words.matches("- `.*`:")) {
-                    pieces.add(words);
+    /** The text, with a new line in place of what is said. */
+    private static String withoutSaid(String text, List<String> said) {
+        char[] left = text.toCharArray();
+        for (String words : said) {
+            for (int at = text.indexOf(words); at >= 0; at = text.indexOf(words, at + 1)) {
+                Arrays.fill(left, at, at + words.length(), '\n');
+            }
+        }
+        return new String(left);
+    }
+
+    /** Each row of the face stands in the source, with the names of its parameters, and in this order. */
+    private static void faceStandsInTheSource() throws IOException {
+        String source = Files.readString(SOURCE);
+        int rows = 0;
+        int from = 0;
+        for (String line : Files.readAllLines(DOCUMENT)) {
+            if (line.matches("    public .*;")) {
+                rows++;
+                String row = line.contains("=") ? line : line.replaceFirst(";$", " {");
+                int found = source.indexOf("\n" + row + "\n", from);
+                if (found < 0) {
+                    fault("the source has not, or not in its place: " + row);
+                } else {
+                    from = found;
                 }
             }
         }
-        return pieces;
+        if (rows != 31 || !source.contains("\npublic final class PeerNotes {\n")) {
+            fault("not the face of the class PeerNotes, with 31 rows: " + rows);
+        }
+    }
+
+    /** Each call stands below the heading that the document puts ahead of it, and below no later one. */
+    private static void headingsStandInTheSource() throws IOException {
+        Map<String, String> headings = new LinkedHashMap<>();
+        String heading = "";
+        for (String line : Files.readAllLines(SOURCE)) {
+            Matcher method = Pattern.compile("    public int (\\w+)\\(.*").matcher(line);
+            if (line.startsWith("    // ---- ")) {
+                heading = line.replace("    // ", "");
+            } else if (method.matches()) {
+                headings.put(method.group(1), heading);
+            }
+        }
+        int calls = 0;
+        for (String line : Files.readAllLines(DOCUMENT)) {
+            Matcher ahead = AHEAD.matcher(line);
+            for (String call : ahead.matches() ? ahead.group(1).replace("`", "").split(", ") : new String[0]) {
+                calls++;
+                if (!ahead.group(2).equals(headings.get(call))) {
+                    fault(call + " stands below " + headings.get(call) + ", not below " + ahead.group(2));
+                }
+            }
+        }
+        if (calls != headings.size()) {
+            fault("the document has headings for " + calls + " calls, the source has " + headings.size());
+        }
     }
 }

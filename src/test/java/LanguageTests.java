@@ -1,47 +1,27 @@
-import com.sun.source.tree.AssertTree;
-import com.sun.source.tree.CompilationUnitTree;
-import com.sun.source.tree.ImportTree;
-import com.sun.source.tree.InstanceOfTree;
-import com.sun.source.tree.LambdaExpressionTree;
-import com.sun.source.tree.LiteralTree;
-import com.sun.source.tree.MemberReferenceTree;
-import com.sun.source.tree.MethodInvocationTree;
-import com.sun.source.tree.MethodTree;
-import com.sun.source.tree.NewArrayTree;
-import com.sun.source.tree.NewClassTree;
-import com.sun.source.tree.SynchronizedTree;
-import com.sun.source.tree.ThrowTree;
-import com.sun.source.tree.Tree;
-import com.sun.source.tree.TryTree;
-import com.sun.source.tree.TypeCastTree;
-import com.sun.source.tree.WhileLoopTree;
-import com.sun.source.util.JavacTask;
-import com.sun.source.util.SourcePositions;
-import com.sun.source.util.TreeScanner;
-import com.sun.source.util.Trees;
-import java.io.File;
-import java.io.IOException;
+import java.lang.reflect.Array;
 import java.lang.reflect.Constructor;
 import java.lang.reflect.Field;
 import java.lang.reflect.Method;
 import java.lang.reflect.Modifier;
+import java.util.ArrayDeque;
 import java.util.ArrayList;
 import java.util.Arrays;
+import java.util.Collections;
+import java.util.Deque;
+import java.util.IdentityHashMap;
 import java.util.List;
 import java.util.Set;
 import java.util.TreeSet;
 import java.util.stream.Collectors;
-import javax.tools.JavaCompiler;
-import javax.tools.StandardJavaFileManager;
-import javax.tools.ToolProvider;
 
-/** The public face of the document, and what of LANGUAGE.md can be looked for in the source. Run from the project's root. */
+/** The public face of the document, what LANGUAGE.md says of classes and members, and the room that an object takes. */
 public final class LanguageTests {
-    private static final File SOURCE = new File("src/main/java/PeerNotes.java");
-    private static final int MOST_METHOD_LINES = 60;
     private static final int MOST_PARAMETERS = 7;
     private static final int MOST_FIELDS = 20;
     private static final int MOST_CLASSES = 12;
+    /** About a thousandth of the 600,000 objects, and of the 7.3 million fields and elements, that a run has room for. */
+    private static final int MOST_OBJECTS = 610;
+    private static final int MOST_CELLS = 7300;
 
     private static final String[] FACE = {"int addInvestor(int)", "int deposit(int,int)", "int setPoolShare(int)",
         "int openLoan(int,int,int)", "int fund(int,int,boolean,int)", "int giveUp(int)", "int pay(int,int)",
@@ -60,10 +40,10 @@ public final class LanguageTests {
         }
     }
 
-    public static void main(String[] args) throws IOException {
+    public static void main(String[] args) throws IllegalAccessException {
         face();
         members();
-        source();
+        room();
         System.out.println(wrong == 0 ? "the class keeps to its face and language" : wrong + " faults");
         if (wrong != 0) {
             System.exit(1);
@@ -132,146 +112,72 @@ public final class LanguageTests {
         }
     }
 
-    private static void source() throws IOException {
-        JavaCompiler compiler = ToolProvider.getSystemJavaCompiler();
-        due("a compiler is there", compiler != null);
-        if (compiler == null) {
-            return;
-        }
-        try (StandardJavaFileManager files = compiler.getStandardFileManager(null, null, null)) {
-            JavacTask task = (JavacTask) compiler.getTask(null, files, null, null, null,
-                files.getJavaFileObjects(SOURCE));
-            for (CompilationUnitTree unit : task.parse()) {
-                due("no package", unit.getPackage() == null);
-                new Looker(unit, Trees.instance(task).getSourcePositions()).scan(unit, null);
-            }
-        }
+    /** An object and all that it holds, when it is new and when its calls are over: none of them is to make more. */
+    private static void room() throws IllegalAccessException {
+        PeerNotes market = new PeerNotes();
+        int[] first = measured(market);
+        due("objects of a new market: " + first[0], first[0] > 0 && first[0] <= MOST_OBJECTS);
+        due("fields and elements of a new market: " + first[1], first[1] > 0 && first[1] <= MOST_CELLS);
+        fill(market);
+        due("a market that was used is as great as a new one", Arrays.equals(measured(market), first));
     }
 
-    /** Looks for what the language leaves out, and for what the class does not need of it. */
-    private static final class Looker extends TreeScanner<Void, Void> {
-        final CompilationUnitTree unit;
-        final SourcePositions positions;
-        String method = "";
-
-        Looker(CompilationUnitTree unit, SourcePositions positions) {
-            this.unit = unit;
-            this.positions = positions;
-        }
-
-        long line(long position) {
-            return unit.getLineMap().getLineNumber(position);
-        }
-
-        void never(Tree tree) {
-            due("line " + line(positions.getStartPosition(unit, tree)) + ": " + tree.getKind(), false);
-        }
-
-        @Override
-        public Void visitMethod(MethodTree tree, Void none) {
-            long lines = 1 + line(positions.getEndPosition(unit, tree)) - line(positions.getStartPosition(unit, tree));
-            due(tree.getName() + " has " + lines + " lines", lines <= MOST_METHOD_LINES);
-            due(tree.getName() + " tells no exceptions", tree.getThrows().isEmpty());
-            method = tree.getName().toString();
-            super.visitMethod(tree, none);
-            method = "";
-            return null;
-        }
-
-        /** Rows are made in constructors and used again: the room of a run is small. */
-        @Override
-        public Void visitNewClass(NewClassTree tree, Void none) {
-            if (tree.getClassBody() != null || !method.isEmpty() && !method.equals("<init>")) {
-                never(tree);
+    private static void fill(PeerNotes market) {
+        market.addInvestor(100000);
+        for (int i = 0; i < 10; i++) {
+            market.openLoan(1000, 50, 10);
+            market.keep();
+            for (int note = 0; note < 5; note++) {
+                market.fund(0, i, note % 2 == 0, 200);
             }
-            return super.visitNewClass(tree, none);
         }
+        for (int i = 0; i < 10; i++) {
+            market.pass(1);
+            market.pay(i, 123);
+        }
+        for (char sign : "0>1s5;0>2j6".toCharArray()) {
+            market.type(sign);
+        }
+        market.readFundings();
+        market.sell(9, 700);
+        market.undo();
+        market.restore();
+        market.giveUp(9);
+    }
 
-        @Override
-        public Void visitNewArray(NewArrayTree tree, Void none) {
-            if (!method.isEmpty() && !method.equals("<init>")) {
-                never(tree);
+    /** The objects and arrays that can be reached, and their fields and elements together. */
+    private static int[] measured(PeerNotes market) throws IllegalAccessException {
+        Set<Object> seen = Collections.newSetFromMap(new IdentityHashMap<>());
+        Deque<Object> open = new ArrayDeque<>(List.of(market));
+        int cells = 0;
+        while (!open.isEmpty()) {
+            Object each = open.pop();
+            if (seen.add(each)) {
+                List<Object> parts = new ArrayList<>();
+                cells += partsOf(each, parts);
+                open.addAll(parts);
             }
-            return super.visitNewArray(tree, none);
         }
+        return new int[] {seen.size(), cells};
+    }
 
-        @Override
-        public Void visitMethodInvocation(MethodInvocationTree tree, Void none) {
-            String called = tree.getMethodSelect().toString();
-            due(called + " is not of the library", !called.startsWith("System.") && !called.startsWith("Thread."));
-            due(called + " may throw", !called.endsWith("Exact"));
-            return super.visitMethodInvocation(tree, none);
-        }
-
-        @Override
-        public Void visitLiteral(LiteralTree tree, Void none) {
-            if (tree.getKind() == Tree.Kind.STRING_LITERAL || tree.getKind() == Tree.Kind.NULL_LITERAL) {
-                never(tree);
+    private static int partsOf(Object each, List<Object> parts) throws IllegalAccessException {
+        if (each.getClass().isArray()) {
+            if (!each.getClass().getComponentType().isPrimitive()) {
+                parts.addAll(Arrays.asList((Object[]) each));
             }
-            return super.visitLiteral(tree, none);
+            return Array.getLength(each);
         }
-
-        @Override
-        public Void visitTypeCast(TypeCastTree tree, Void none) {
-            String to = tree.getType().toString();
-            if (!to.equals("int") && !to.equals("long")) {
-                never(tree);
+        int fields = 0;
+        for (Field field : each.getClass().getDeclaredFields()) {
+            if (!Modifier.isStatic(field.getModifiers())) {
+                fields++;
+                field.setAccessible(true);
+                if (!field.getType().isPrimitive()) {
+                    parts.add(field.get(each));
+                }
             }
-            return super.visitTypeCast(tree, none);
         }
-
-        @Override
-        public Void visitImport(ImportTree tree, Void none) {
-            never(tree);
-            return null;
-        }
-
-        @Override
-        public Void visitThrow(ThrowTree tree, Void none) {
-            never(tree);
-            return null;
-        }
-
-        @Override
-        public Void visitTry(TryTree tree, Void none) {
-            never(tree);
-            return null;
-        }
-
-        @Override
-        public Void visitSynchronized(SynchronizedTree tree, Void none) {
-            never(tree);
-            return null;
-        }
-
-        @Override
-        public Void visitAssert(AssertTree tree, Void none) {
-            never(tree);
-            return null;
-        }
-
-        @Override
-        public Void visitInstanceOf(InstanceOfTree tree, Void none) {
-            never(tree);
-            return null;
-        }
-
-        @Override
-        public Void visitLambdaExpression(LambdaExpressionTree tree, Void none) {
-            never(tree);
-            return null;
-        }
-
-        @Override
-        public Void visitMemberReference(MemberReferenceTree tree, Void none) {
-            never(tree);
-            return null;
-        }
-
-        @Override
-        public Void visitWhileLoop(WhileLoopTree tree, Void none) {
-            never(tree);
-            return null;
-        }
+        return fields;
     }
 }

@@ -8,6 +8,50 @@ public final class TermsBoundaries extends Sentences {
 
     // ---- What it is
 
+    @Says(in = "What it is", value = "Lending among peers: loans that are funded in parts, each part a note of a senior or a "
+        + "junior class, payments that are split by a told order into fee, interest and principal, to the last coin by notes, "
+        + "arrears that are cured or sold, a pool that makes good for seniors, servicers that are switched with the next "
+        + "month, notes that are sold to others, fundings that are read from a text with the places of faults, what a payment "
+        + "would do, accounts, undo and a snapshot.")
+    static void oneOfEachThing() {
+        PeerNotes x = Markets.withInvestors(5000, 5000);
+        due("openLoan(1000, 30, 4)", x.openLoan(1000, 30, 4), 0);
+        due("read a text with a fault", Markets.read(x, "0>0s500;1>0x100;1>0j400"), -111);
+        due("read a text", Markets.read(x, "0>0s500;1>0s100;1>0j400"), 3);
+        due("loan(0, 3)", x.loan(0, 3), 250);
+        due("pass(1)", x.pass(1), 0);
+        dueRows("split(0, 100, ..)", Markets.split(x, 0, 100), 0, 30, 1, 70, 70, 0);
+        // 29 by 500, 100 and 400: 14, 2 and 11, and two coins more; 70 by 500 and 100: 58 and 11, and one coin more.
+        due("pay(0, 100)", x.pay(0, 100), 930);
+        dueRows("note(.., 5)", Markets.notes(x, 5), 15, 3, 11);
+        dueRows("note(.., 3)", Markets.notes(x, 3), 441, 89, 400);
+        dueRows("investor(.., 0)", Markets.investors(x, 0), 4574, 4525);
+        due("pass(1)", x.pass(1), 1);
+        // 27 of interest are due; 26 by 441, 89 and 400: 12, 2 and 11, and one coin more.
+        due("pay(0, 27)", x.pay(0, 27), 930);
+        due("cure(0, 10)", x.cure(0, 10), 93);
+        due("switchServicer(0, 3)", x.switchServicer(0, 3), 0);
+        due("pass(1)", x.pass(1), 0);
+        due("loan(0, 7)", x.loan(0, 7), 3);
+        due("sellNote(1, 0, 80)", x.sellNote(1, 0, 80), 89);
+        dueRows("investor(.., 0)", Markets.investors(x, 0), 4507, 4618);
+        due("toRepay(0) of 957", x.toRepay(0), 996);
+        due("keep()", x.keep(), 3);
+        due("pass(4)", x.pass(4), 1);
+        // The seniors lack 24 and 6 of 441 and 89; the pool has 2 coins.
+        due("sell(0, 500)", x.sell(0, 500), 428);
+        dueRows("note(.., 6)", Markets.notes(x, 6), 22, 6, 400);
+        dueRows("investor(0, ..)", Markets.investor(x, 0), 5009, 0, 0, 0, 28, 28);
+        dueRows("investor(1, ..)", Markets.investor(x, 1), 4618, 0, 0, 0, 27, 400);
+        due("count(9)", x.count(9), 0);
+        due("undo()", x.undo(), 3);
+        due("toRepay(0) of 1065", x.toRepay(0), 1109);
+        due("pay(0, 1109)", x.pay(0, 1109), 0);
+        due("servicer(3, 1)", x.servicer(3, 1), 44);
+        due("restore()", x.restore(), 3);
+        dueRows("loan(0, ..)", Markets.loan(x, 0), 1, 1000, 930, 93, 27, 93, 0, 3, NONE, 0, 3, 530, 400);
+    }
+
     private static PeerNotes after511Calls() {
         PeerNotes x = new PeerNotes();
         due("addInvestor(0)", x.addInvestor(0), 0);
@@ -25,6 +69,60 @@ public final class TermsBoundaries extends Sentences {
         due("undo()", after511Calls().undo(), 3);
         due("count(16)", after511Calls().count(16), 4);
         due("pass(24)", after511Calls().pass(24), 0);
+    }
+
+    // ---- Terms
+
+    /** All coins that came in are somewhere: in a cash, in the pool, with a servicer, or with the borrowers. */
+    private static void dueInAll(PeerNotes x, String when, int coins) {
+        int all = x.count(9);
+        for (int cash : Markets.investors(x, 0)) {
+            all += cash;
+        }
+        for (int i = 0; i < 4; i++) {
+            all += x.servicer(i, 1);
+        }
+        int notes = x.count(8);
+        for (int i = 0; i < notes; i++) {
+            all += x.loan(x.note(i, 1), 0) == 4 ? 0 : x.note(i, 4);
+        }
+        due("all coins after " + when, all, coins);
+    }
+
+    @Says(in = "Terms", value = "All amounts are whole coins.")
+    static void noCoinIsMadeOrLost() {
+        PeerNotes x = Markets.withInvestors(1000, 777, 501);
+        x.openLoan(1001, 37, 7);
+        x.openLoan(333, 50, 5);
+        x.openLoan(500, 10, 5);
+        int[][] fundings = {{0, 0, 0, 335}, {1, 0, 0, 333}, {2, 0, 1, 166}, {0, 0, 1, 167}, {1, 1, 0, 111}, {2, 1, 1, 111},
+            {0, 1, 0, 111}, {0, 2, 1, 99}};
+        for (int[] row : fundings) {
+            x.fund(row[0], row[1], row[2] == 1, row[3]);
+        }
+        int coins = 1000 + 777 + 501;
+        dueInAll(x, "the fundings", coins);
+        due("giveUp(2)", x.giveUp(2), 99);
+        dueInAll(x, "giveUp(2)", coins);
+        x.pass(1);
+        int[] payments = {7, 29, 1, 77, 201, 333};
+        for (int payment : payments) {
+            x.pay(0, payment);
+            coins += payment;
+            dueInAll(x, "a payment of " + payment, coins);
+        }
+        x.sellNote(0, 2, 13);
+        dueInAll(x, "a sale of a note", coins);
+        x.pass(3);
+        x.pay(1, 13);
+        // The pool has 1 coin; the seniors have 222.
+        due("sell(1, 200)", x.sell(1, 200), 132);
+        coins += 13 + 200;
+        dueInAll(x, "a sale for too little", coins);
+        x.pass(2);
+        due("sell(0, 999)", x.sell(0, 999), 0);
+        coins += 999;
+        dueInAll(x, "a sale for too much", coins);
     }
 
     // ---- WHO
@@ -75,7 +173,7 @@ public final class TermsBoundaries extends Sentences {
         due("count(9) before a payment", x.count(9), 0);
     }
 
-    @Says(in = "WHO", value = "a share of interest for it (0 to 50 percent, at first 5)")
+    @Says(in = "WHO", value = ", and a share of interest for it (0 to 50 percent, at first 5)")
     static void poolShareFrom0To50() {
         int[][] sharesAndPool = {{0, 0}, {1, 0}, {2, 1}, {49, 24}, {50, 25}};
         for (int[] row : sharesAndPool) {
@@ -212,7 +310,8 @@ public final class TermsBoundaries extends Sentences {
         dueRows("note(1, ..)", Markets.note(x, 1), 1, 1, 1, 99999, 99999, 0, 0);
     }
 
-    @Says(in = "LOANS AND NOTES", value = "As soon as the notes of a loan have its amount together, it runs")
+    @Says(in = "LOANS AND NOTES",
+        value = "As soon as the notes of a loan have its amount together, it runs: its principal is the amount,")
     static void itRunsWithTheLastCoin() {
         PeerNotes x = Markets.withInvestors(1000);
         x.openLoan(100, 0, 1);
@@ -410,7 +509,8 @@ public final class TermsBoundaries extends Sentences {
 
     // ---- SHARING
 
-    @Says(in = "SHARING", value = "each note gets coins * weight / all weights together, rounded down")
+    @Says(in = "SHARING", value = "When coins are shared among notes by some weights, each note gets coins * weight / all "
+        + "weights together, rounded down")
     static void sharesWithoutARest() {
         PeerNotes x = Markets.noteByNote(0, 1, 30, 70);
         due("pay(0, 10)", x.pay(0, 10), 90);
@@ -554,7 +654,8 @@ public final class TermsBoundaries extends Sentences {
         }
     }
 
-    @Says(in = "A PAYMENT", value = "The rest is split on.")
+    @Says(in = "A PAYMENT",
+        value = {"A payment of a loan that runs is split in this order:", "The rest is split on."})
     static void theRestIsWhatTheFeeLeaves() {
         PeerNotes x = Markets.runningWith(3, 1000, 50, 10);
         // 50 are due.
@@ -1225,12 +1326,117 @@ public final class TermsBoundaries extends Sentences {
         same("after refused calls", Markets.told(x), before);
     }
 
-    @Says(in = "ERRORS", value = {"`UNKNOWN = -1`", "`BAD_VALUE = -2`", "`FULL = -3`", "`NOT_POSSIBLE = -4`", "`NONE = -5`"})
+    @Says(in = "ERRORS", value = {"Errors are reported by the constants below.", "The constants: `UNKNOWN = -1`:",
+        "`BAD_VALUE = -2`:", "`FULL = -3`:", "`NOT_POSSIBLE = -4`:", "`NONE = -5`:"})
     static void theConstants() {
         due("UNKNOWN", PeerNotes.UNKNOWN, -1);
         due("BAD_VALUE", PeerNotes.BAD_VALUE, -2);
         due("FULL", PeerNotes.FULL, -3);
         due("NOT_POSSIBLE", PeerNotes.NOT_POSSIBLE, -4);
         due("NONE", PeerNotes.NONE, -5);
+    }
+
+    @Says(in = "ERRORS", value = "There is no such investor, servicer, loan or note.")
+    static void allThatIsUnknown() {
+        PeerNotes x = Markets.ofEachState();
+        due("no investor 2: deposit", x.deposit(2, 1), -1);
+        due("no investor 2: fund", x.fund(2, 0, false, 1), -1);
+        due("no investor 2: sellNote", x.sellNote(1, 2, 0), -1);
+        due("no investor 2: readFundings", Markets.read(x, "2>0s1"), -1);
+        due("no investor 2: investor", x.investor(2, 0), -1);
+        due("no loan 5: fund", x.fund(0, 5, false, 1), -1);
+        due("no loan 5: giveUp", x.giveUp(5), -1);
+        due("no loan 5: pay", x.pay(5, 1), -1);
+        due("no loan 5: cure", x.cure(5, 1), -1);
+        due("no loan 5: sell", x.sell(5, 0), -1);
+        due("no loan 5: switchServicer", x.switchServicer(5, 1), -1);
+        due("no loan 5: readFundings", Markets.read(x, "0>5s1"), -1);
+        due("no loan 5: loan", x.loan(5, 0), -1);
+        due("no loan 5: split", x.split(5, 1, 0), -1);
+        due("no loan 5: toRepay", x.toRepay(5), -1);
+        due("no note 6: sellNote", x.sellNote(6, 0, 0), -1);
+        due("no note 6: note", x.note(6, 0), -1);
+        due("no servicer 4: switchServicer", x.switchServicer(1, 4), -1);
+        due("no servicer 4: servicer", x.servicer(4, 0), -1);
+    }
+
+    @Says(in = "ERRORS", value = "Another argument is out of range.")
+    static void allThatIsOutOfRange() {
+        PeerNotes x = Markets.ofEachState();
+        due("addInvestor(-1)", x.addInvestor(-1), -2);
+        due("deposit(0, 0)", x.deposit(0, 0), -2);
+        due("setPoolShare(51)", x.setPoolShare(51), -2);
+        due("openLoan(99, 0, 1)", x.openLoan(99, 0, 1), -2);
+        due("openLoan(100, 51, 1)", x.openLoan(100, 51, 1), -2);
+        due("openLoan(100, 0, 37)", x.openLoan(100, 0, 37), -2);
+        due("fund(0, 0, false, 0)", x.fund(0, 0, false, 0), -2);
+        due("pay(1, 0)", x.pay(1, 0), -2);
+        due("cure(1, 0)", x.cure(1, 0), -2);
+        due("sell(1, -1)", x.sell(1, -1), -2);
+        due("sellNote(1, 1, -1)", x.sellNote(1, 1, -1), -2);
+        due("pass(0)", x.pass(0), -2);
+        due("investor(0, 6)", x.investor(0, 6), -2);
+        due("loan(0, 13)", x.loan(0, 13), -2);
+        due("note(0, 7)", x.note(0, 7), -2);
+        due("split(1, 0, 0)", x.split(1, 0, 0), -2);
+        due("split(1, 1, 6)", x.split(1, 1, 6), -2);
+        due("servicer(0, 3)", x.servicer(0, 3), -2);
+        due("count(18)", x.count(18), -2);
+    }
+
+    @Says(in = "ERRORS", value = "There is no more room.")
+    static void allThatIsFull() {
+        PeerNotes x = Markets.sixtyNotes();
+        due("deposit to the most", x.deposit(0, MOST - 1000), MOST);
+        due("deposit", x.deposit(0, 1), -3);
+        due("giveUp: no room for 60 coins", x.giveUp(0), -3);
+        due("fund, the 61st", x.fund(0, 0, false, 1), -3);
+        due("readFundings, the 61st", Markets.read(x, "0>0s1"), -3);
+        for (int i = 1; i < 8; i++) {
+            x.addInvestor(1000);
+        }
+        due("addInvestor, the ninth", x.addInvestor(0), -3);
+        for (int i = 1; i < 10; i++) {
+            x.openLoan(100, 0, 1);
+        }
+        due("openLoan, the eleventh", x.openLoan(100, 0, 1), -3);
+        for (int i = 5; i < 60; i++) {
+            x.type('1');
+        }
+        due("type, the 61st", x.type('1'), -3);
+        PeerNotes y = Markets.seniorAndJunior();
+        y.pass(4);
+        y.deposit(0, MOST - 9400);
+        due("pay", y.pay(0, 50), -3);
+        due("sell", y.sell(0, 50), -3);
+        due("sellNote", y.sellNote(0, 1, 1), -3);
+    }
+
+    @Says(in = "ERRORS", value = "This is not possible.")
+    static void allThatIsNotPossible() {
+        PeerNotes x = Markets.ofEachState();
+        due("fund a loan that runs", x.fund(0, 1, false, 1), -4);
+        due("readFundings for a loan that runs", Markets.read(x, "0>1s1"), -4);
+        due("giveUp a loan that runs", x.giveUp(1), -4);
+        due("pay for a loan in funding", x.pay(0, 1), -4);
+        due("cure a loan in funding", x.cure(0, 1), -4);
+        due("sell a loan in funding", x.sell(0, 0), -4);
+        due("switchServicer of a loan in funding", x.switchServicer(0, 1), -4);
+        due("sellNote of a loan in funding", x.sellNote(0, 1, 0), -4);
+        due("split for a loan in funding", x.split(0, 1, 0), -4);
+        due("toRepay a loan in funding", x.toRepay(0), -4);
+        due("pass the last month", Markets.atTheLastMonth().pass(1), -4);
+    }
+
+    @Says(in = "ERRORS", value = "There is no such thing; not an error.")
+    static void allThatIsNone() {
+        PeerNotes x = new PeerNotes();
+        due("undo()", x.undo(), -5);
+        due("restore()", x.restore(), -5);
+        due("setPoolShare(5)", x.setPoolShare(5), -5);
+        PeerNotes y = Markets.ofEachState();
+        due("switchServicer(1, 0)", y.switchServicer(1, 0), -5);
+        due("loan(0, 3)", y.loan(0, 3), -5);
+        due("loan(0, 8)", y.loan(0, 8), -5);
     }
 }

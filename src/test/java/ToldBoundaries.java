@@ -19,7 +19,7 @@ public final class ToldBoundaries extends Sentences {
         due("investor(1, 0) after undo()", x.investor(1, 0), UNKNOWN);
     }
 
-    @Says(in = "Promise 20", value = {"- `what`: 0 for the cash", "5 for the losses so far", "BAD_VALUE"})
+    @Says(in = "Promise 20", value = {"- `what`: 0 for the cash", "5 for the losses so far", "Returns the number;", "BAD_VALUE"})
     static void whatOfAnInvestorFrom0To5() {
         PeerNotes x = Markets.withInvestors(3);
         int[] bad = {-1, 6, LEAST, MOST};
@@ -119,7 +119,7 @@ public final class ToldBoundaries extends Sentences {
     }
 
     @Says(in = "Promise 21", value = {"- `what`: 0 for its state, 1 for its amount", "12 for those of its junior ones",
-        "BAD_VALUE"})
+        "Returns the number;", "BAD_VALUE"})
     static void whatOfALoanFrom0To12() {
         PeerNotes x = Markets.seniorAndJunior();
         int[] bad = {-1, 13, LEAST, MOST};
@@ -235,7 +235,7 @@ public final class ToldBoundaries extends Sentences {
     }
 
     @Says(in = "Promise 22", value = {"- `what`: 0 for its investor, 1 for its loan, 2 for its class", "6 for its loss",
-        "BAD_VALUE"})
+        "Returns the number;", "BAD_VALUE"})
     static void whatOfANoteFrom0To6() {
         PeerNotes x = Markets.seniorAndJunior();
         int[] bad = {-1, 7, LEAST, MOST};
@@ -292,7 +292,7 @@ public final class ToldBoundaries extends Sentences {
         dueRows("split(0, 199999, ..)", Markets.split(x, 0, 199999), 999, 119976, 5998, 79024, 79024, 0);
     }
 
-    @Says(in = "Promise 23", value = {"- `what`: 0 for the fee", "5 for that of junior ones", "BAD_VALUE"})
+    @Says(in = "Promise 23", value = {"- `what`: 0 for the fee", "5 for that of junior ones", "Returns the coins;", "BAD_VALUE"})
     static void whatOfASplitFrom0To5() {
         PeerNotes x = Markets.seniorAndJunior();
         x.pass(1);
@@ -490,7 +490,7 @@ public final class ToldBoundaries extends Sentences {
         due("servicer(3, 0)", x.servicer(3, 0), 40);
     }
 
-    @Says(in = "Promise 25", value = {"- `what`: 0 for the fee", "BAD_VALUE"})
+    @Says(in = "Promise 25", value = {"- `what`: 0 for the fee", "Returns the number;", "BAD_VALUE"})
     static void whatOfAServicerFrom0To2() {
         PeerNotes x = new PeerNotes();
         int[] bad = {-1, 3, LEAST, MOST};
@@ -554,7 +554,7 @@ public final class ToldBoundaries extends Sentences {
     // ---- 26
 
     @Says(in = "Promise 26", value = {"- `what`: 0 for the months since the beginning", "17 for the length of the text",
-        "BAD_VALUE"})
+        "Returns the number;", "BAD_VALUE"})
     static void countFrom0To17() {
         PeerNotes x = new PeerNotes();
         int[] bad = {-1, 18, LEAST, MOST};
