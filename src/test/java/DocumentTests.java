@@ -18,7 +18,7 @@ import java.util.regex.Pattern;
 public final class DocumentTests {
     private static final Path DOCUMENT = Path.of("../shared/DOC.md");
     private static final List<Class<?>> TESTS = List.of(TermsBoundaries.class, ActsBoundaries.class,
-        TextsAndHistoryBoundaries.class, ToldBoundaries.class, RefusedCalls.class);
+        TextsAndHistoryBoundaries.class, ToldBoundaries.class, ChangesOfActs.class, RefusedCalls.class);
 
     private static final Path SOURCE = Path.of("src/main/java/PeerNotes.java");
 

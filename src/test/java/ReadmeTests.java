@@ -126,7 +126,7 @@ public final class ReadmeTests {
                 fault("README.md does not name the test " + name);
             }
         }
-        Matcher named = Pattern.compile("`(\\w+(Tests|Boundaries|Runs|Calls))`").matcher(readme);
+        Matcher named = Pattern.compile("`(\\w+(Tests|Boundaries|Runs|Calls|Acts))`").matcher(readme);
         while (named.find()) {
             if (!there.contains(named.group(1))) {
                 fault("README.md names a test that is not there: " + named.group(1));

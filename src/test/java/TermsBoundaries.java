@@ -298,6 +298,64 @@ public final class TermsBoundaries extends Sentences {
         due("investor(0, 0)", x.investor(0, 0), 1000);
     }
 
+    /** 8 investors, 10 loans that run, with 6 notes of 100 coins each: note i is of investor i % 8, and junior if i is odd. */
+    private static PeerNotes fullHouse() {
+        PeerNotes x = Markets.withInvestors(1000, 1000, 1000, 1000, 1000, 1000, 1000, 1000);
+        for (int i = 0; i < 10; i++) {
+            x.openLoan(600, 10, 6);
+        }
+        for (int i = 0; i < 60; i++) {
+            x.fund(i % 8, i / 6, i % 2 == 1, 100);
+        }
+        return x;
+    }
+
+    @Says(in = "LOANS AND NOTES", value = "There are at most 60 notes, numbered from 0.")
+    static void theNotesOfAFullHouse() {
+        PeerNotes x = fullHouse();
+        due("count(4)", x.count(4), 10);
+        due("count(11)", x.count(11), 6000);
+        due("servicer(0, 2)", x.servicer(0, 2), 10);
+        // The notes 3, 11, 19, .. of the loans 0, 1, 3, 4, 5, 7, 8, 9; the notes 7, 15, .. of the loans 1, 2, 3, 5, 6, 7, 9.
+        dueRows("investor(3, ..)", Markets.investor(x, 3), 200, 800, 8, 955, 0, 0);
+        dueRows("investor(7, ..)", Markets.investor(x, 7), 300, 700, 7, 750, 0, 0);
+        dueRows("note(59, ..)", Markets.note(x, 59), 3, 9, 1, 100, 100, 0, 0);
+        dueRows("loan(9, ..)", Markets.loan(x, 9), 1, 600, 600, 100, 0, 0, 0, 0, NONE, 0, 6, 300, 300);
+        due("sellNote(59, 7, 30)", x.sellNote(59, 7, 30), 100);
+        dueRows("investor(3, ..)", Markets.investor(x, 3), 230, 700, 7, 443, 0, 0);
+        dueRows("investor(7, ..)", Markets.investor(x, 7), 270, 800, 8, 750, 0, 0);
+    }
+
+    @Says(in = "LOANS AND NOTES", value = "There are at most 60 notes, numbered from 0.")
+    static void paymentsAndSalesInAFullHouse() {
+        PeerNotes x = fullHouse();
+        due("pass(1)", x.pass(1), 0);
+        due("pass(3)", x.pass(3), 10);
+        // 24 of interest, 1 of it for the pool: 3 for each note, and 5 coins more.
+        due("pay(9, 24)", x.pay(9, 24), 600);
+        int[] interest = {4, 4, 4, 4, 4, 3};
+        for (int i = 0; i < 6; i++) {
+            due("note(" + (54 + i) + ", 5)", x.note(54 + i, 5), interest[i]);
+        }
+        // 84, 83 and 83 for the seniors, and the coin of the pool for the first of them.
+        due("sell(9, 250)", x.sell(9, 250), 349);
+        int[] losses = {15, 100, 17, 100, 17, 100};
+        for (int i = 0; i < 6; i++) {
+            due("note(" + (54 + i) + ", 6)", x.note(54 + i, 6), losses[i]);
+        }
+        due("count(9)", x.count(9), 0);
+        due("count(11)", x.count(11), 5400);
+        due("count(12)", x.count(12), 9 * 24);
+        due("count(13)", x.count(13), 349);
+        due("count(14)", x.count(14), 9);
+        dueRows("investor(.., 5)", Markets.investors(x, 5), 17, 100, 17, 100, 0, 0, 15, 100);
+        due("keep()", x.keep(), 60);
+        due("undo()", x.undo(), 3);
+        due("count(6)", x.count(6), 0);
+        due("restore()", x.restore(), 60);
+        due("count(6)", x.count(6), 1);
+    }
+
     @Says(in = "LOANS AND NOTES", value = "A note is of an investor, for a loan, of the class 0 (senior) or 1 (junior);"
         + " it has a principal, which is at first the coins with which it was funded.")
     static void aNewNote() {
@@ -441,6 +499,18 @@ public final class TermsBoundaries extends Sentences {
         due("loan(0, 4)", x.loan(0, 4), 1);
         x.pass(1);
         due("loan(0, 6)", x.loan(0, 6), 1);
+    }
+
+    @Says(in = "A MONTH", value = "If interest or principal is due, it is in arrears for 1 month more")
+    static void inArrearsFor239Months() {
+        PeerNotes x = Markets.running(1000, 0, 10);
+        for (int i = 0; i < 10; i++) {
+            due("pass(24)", x.pass(24), 1);
+        }
+        due("loan(0, 6)", x.loan(0, 6), 239);
+        due("cure(0, 10)", x.cure(0, 10), 100);
+        x.undo();
+        due("sell(0, 400)", x.sell(0, 400), 600);
     }
 
     @Says(in = "A MONTH", value = "otherwise for 0 months.")
@@ -620,6 +690,16 @@ public final class TermsBoundaries extends Sentences {
     }
 
     @Says(in = "SHARING", value = "by their numbers")
+    static void byTheNumbersOfNotesNotByClass() {
+        PeerNotes x = Markets.noteByNote(50, 1, -50, 50);
+        x.setPoolShare(0);
+        x.pass(1);
+        // 5 of interest by 50 and 50: the coin that is left is for the junior note.
+        due("pay(0, 5)", x.pay(0, 5), 100);
+        dueRows("note(.., 5)", Markets.notes(x, 5), 3, 2);
+    }
+
+    @Says(in = "SHARING", value = "by their numbers")
     static void byTheNumbersOfNotesNotOfInvestors() {
         PeerNotes x = Markets.withInvestors(100, 100, 100);
         x.openLoan(100, 0, 1);
@@ -770,6 +850,32 @@ public final class TermsBoundaries extends Sentences {
         dueRows("investor(.., 4): principal is no interest", Markets.investors(x, 4), 0, 0, 0, 0);
     }
 
+    /** Note 0 of 100 gave the odd coins of 20 payments, so that it has 80: note 1 has 100 still. */
+    private static PeerNotes unlikeWhatWasFunded(int... notes) {
+        PeerNotes x = Markets.noteByNote(50, 1, notes);
+        for (int i = 0; i < 20; i++) {
+            x.pay(0, 1);
+        }
+        due("note(0, 3)", x.note(0, 3), 80);
+        due("note(1, 3)", x.note(1, 3), 100);
+        return x;
+    }
+
+    @Says(in = "A PAYMENT", value = "in each class it is shared by the principals of its notes")
+    static void byThePrincipalsOfNowNotByWhatWasFunded() {
+        PeerNotes seniors = unlikeWhatWasFunded(100, 100);
+        due("pay(0, 90)", seniors.pay(0, 90), 90);
+        dueRows("note(.., 3)", Markets.notes(seniors, 3), 40, 50);
+        PeerNotes juniors = unlikeWhatWasFunded(-100, -100);
+        due("pay(0, 90)", juniors.pay(0, 90), 90);
+        dueRows("note(.., 3)", Markets.notes(juniors, 3), 40, 50);
+        PeerNotes interest = unlikeWhatWasFunded(100, 100);
+        interest.setPoolShare(0);
+        interest.pass(1);
+        due("pay(0, 9): of interest", interest.pay(0, 9), 180);
+        dueRows("note(.., 5)", Markets.notes(interest, 5), 4, 5);
+    }
+
     @Says(in = "A PAYMENT",
         value = "The principal of the loan and the principal due become less by it (the latter not below 0).")
     static void principalDueIsNotBelow0() {
@@ -866,6 +972,18 @@ public final class TermsBoundaries extends Sentences {
         dueSale(0, 610, 390, 0, 0, 0, 292, 98);
         dueSale(0, 999, 1, 0, 0, 0, 0, 1);
         dueSale(0, 1000, 0, 0, 0, 0, 0, 0);
+    }
+
+    @Says(in = "SALE", value = "in each class shared by the principals")
+    static void thePriceIsSharedByThePrincipalsOfNow() {
+        PeerNotes seniors = unlikeWhatWasFunded(100, 100);
+        seniors.pass(4);
+        due("sell(0, 90)", seniors.sell(0, 90), 90);
+        dueRows("note(.., 6)", Markets.notes(seniors, 6), 40, 50);
+        PeerNotes juniors = unlikeWhatWasFunded(-100, -100);
+        juniors.pass(4);
+        due("sell(0, 90)", juniors.sell(0, 90), 90);
+        dueRows("note(.., 6)", Markets.notes(juniors, 6), 40, 50);
     }
 
     @Says(in = "SALE", value = "what is left of the price goes to the pool.")

@@ -238,6 +238,19 @@ public final class TextsAndHistoryBoundaries extends Sentences {
         due("read: all that is missing", Markets.read(x, "0>0s60;1>0j90"), 2);
     }
 
+    @Says(in = "Promise 16", value = "of the first funding for which it is so when its turn comes")
+    static void anErrorOfALaterFundingComesTooLate() {
+        PeerNotes x = Markets.withInvestors(100, 100);
+        x.openLoan(150, 0, 1);
+        // The second one has too few coins when its turn comes; the third one could be refused from the beginning.
+        due("read: not possible, then unknown", Markets.read(x, "0>0s60;0>0j41;2>0s1"), NOT_POSSIBLE);
+        due("read: it runs then, then unknown", Markets.read(x, "0>0s60;1>0j90;1>0s1;0>1s1"), NOT_POSSIBLE);
+        PeerNotes full = Markets.sixtyNotes();
+        full.undo();
+        due("read: the 61st note, then unknown", Markets.read(full, "0>0s1;0>0s1;0>1s1"), FULL);
+        due("read: the 61st note, then not possible", Markets.read(full, "0>0s1;0>0s1;0>0s99999"), FULL);
+    }
+
     @Says(in = "Promise 16", value = "when its turn comes")
     static void theSixtyFirstNoteOfAText() {
         PeerNotes x = Markets.sixtyNotes();
